@@ -1,0 +1,49 @@
+/** Counts answers that are not the ones that are due, and tells of them. */
+final class Due {
+    private static final int SHOWN = 40;
+
+    private final String test;
+    private int promise;
+    private int asked;
+    private int wrong;
+
+    Due(String test) {
+        this.test = test;
+    }
+
+    void promise(int number) {
+        promise = number;
+    }
+
+    void is(String call, int got, int want) {
+        asked++;
+        if (got != want) {
+            tell("promise " + promise + ": " + call + " answered " + got + ", due is " + want);
+        }
+    }
+
+    void holds(String what, boolean held) {
+        asked++;
+        if (!held) {
+            tell(what);
+        }
+    }
+
+    void tell(String what) {
+        wrong++;
+        if (wrong <= SHOWN) {
+            System.out.println(test + ": " + what);
+        }
+    }
+
+    boolean isWrong() {
+        return wrong > 0;
+    }
+
+    void end() {
+        System.out.println(test + ": " + asked + " answers asked for, " + wrong + " not as due");
+        if (wrong > 0 || asked == 0) {
+            System.exit(1);
+        }
+    }
+}
