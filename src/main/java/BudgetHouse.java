@@ -967,7 +967,7 @@ public final class BudgetHouse {
             return addAny(HUNG, line, more, on, mode);
         }
 
-        /** Sets all of the new paper: an image that came back may have left another one's marks in its place. */
+        /** Sets all of the new paper, whatever its place held before an image came back. */
         int addAny(int kind, int a, int b, int on, int mode) {
             if (size >= PAPERS) {
                 return FULL;
@@ -1345,7 +1345,7 @@ public final class BudgetHouse {
         final int[] codes = new int[TEXTS * TAPE];
         // Made anew by each working out.
         final int[] names = new int[4];
-        final int[] heap = new int[TAPE];
+        final int[] stack = new int[TAPE];
         int depth;
 
         void become(Texts other) {
@@ -1432,7 +1432,7 @@ public final class BudgetHouse {
 
         void push(int v) {
             if (depth >= 0 && depth < TAPE) {
-                heap[depth] = v;
+                stack[depth] = v;
                 depth++;
             }
         }
@@ -1442,7 +1442,7 @@ public final class BudgetHouse {
                 return 0;
             }
             depth--;
-            return heap[depth];
+            return stack[depth];
         }
 
         int worthOfSign(int sign, int left, int right) {
