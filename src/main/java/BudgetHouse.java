@@ -564,18 +564,10 @@ public final class BudgetHouse {
             return incomes - 1;
         }
 
-        int incomeAtMost() {
+        int incomeAt(int[] ends) {
             int all = 0;
-            for (int i = 0; i < incomes && i < INCOMES; i++) {
-                all += mosts[i];
-            }
-            return all;
-        }
-
-        int incomeAtLeast() {
-            int all = 0;
-            for (int i = 0; i < incomes && i < INCOMES; i++) {
-                all += leasts[i];
+            for (int i = 0; i < incomes && i < ends.length; i++) {
+                all += ends[i];
             }
             return all;
         }
@@ -585,16 +577,16 @@ public final class BudgetHouse {
                 return BAD;
             }
             if (what == 0) {
-                return incomeAtLeast() - papers.sumOf(NONE, NONE);
+                return incomeAt(leasts) - papers.sumOf(NONE, NONE);
             }
             if (what == 1) {
-                return incomeAtMost() - papers.sumOf(NONE, NONE);
+                return incomeAt(mosts) - papers.sumOf(NONE, NONE);
             }
             return what < 2 + OFFICES ? papers.sumOf(what - 2, NONE) : papers.sumOf(NONE, what - 2 - OFFICES);
         }
 
         int breakInRow() {
-            int left = incomeAtMost() - papers.sumOf(NONE, NONE);
+            int left = incomeAt(mosts) - papers.sumOf(NONE, NONE);
             copyRow(papers.bs, rowSums);
             int size = layRow();
             for (int i = 0; i < size && i < PAPERS; i++) {

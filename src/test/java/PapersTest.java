@@ -329,6 +329,31 @@ public final class PapersTest {
         DUE.is("put(1)", x.put(1), 1);
         states(x, "of deals", LOST, PASSED, LOST, LOST, PASSED, PASSED);
         DUE.is("would(1, 0): a deal that is not open binds nobody", x.would(1, 0), 0);
+        lastParties();
+    }
+
+    private static void lastParties() {
+        DUE.promise(17);
+        BudgetHouse x = new BudgetHouse();
+        x.member(8, 64);
+        x.member(7, 64);
+        x.paper(1, 0, 5);
+        x.print(0, 6, 0);
+        x.stance(8, 0, 1);
+        x.stance(7, 0, -1);
+        DUE.is("would(0, 0) of party 8", x.would(0, 0), 1);
+        DUE.is("would(0, 1) of party 7", x.would(0, 1), 1);
+        x.stance(8, 0, -1);
+        x.paper(6, 87, 0);
+        DUE.is("would(0, 0): party 8 is bound", x.would(0, 0), 1);
+        x.paper(6, 78, 0);
+        DUE.is("would(0, 0): both are bound", x.would(0, 0), 2);
+        DUE.is("would(0, 1): both are bound", x.would(0, 1), 0);
+        for (int party = 0; party < 7; party++) {
+            x.member(party, 64);
+        }
+        DUE.is("would(0, 2)", x.would(0, 2), 9);
+        DUE.is("would(0, 0): nobody else is bound", x.would(0, 0), 2);
     }
 
     private static void put() {
