@@ -3,7 +3,7 @@ final class Due {
     private static final int SHOWN = 40;
 
     private final String test;
-    private int promise;
+    private String where = "";
     private int asked;
     private int wrong;
 
@@ -12,13 +12,18 @@ final class Due {
     }
 
     void promise(int number) {
-        promise = number;
+        where = "promise " + number + ": ";
+    }
+
+    /** What is asked from here on holds by a sentence of the document. */
+    void sentence(String place, String words) {
+        where = place + ", \"" + words + "\": ";
     }
 
     void is(String call, int got, int want) {
         asked++;
         if (got != want) {
-            tell("promise " + promise + ": " + call + " answered " + got + ", due is " + want);
+            tell(where + call + " answered " + got + ", due is " + want);
         }
     }
 

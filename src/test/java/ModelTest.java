@@ -122,6 +122,9 @@ public final class ModelTest {
     }
 
     private void ask(String name, int... args) throws IllegalAccessException {
+        if (calls.size() >= CALLS) {
+            return;
+        }
         int i = 0;
         while (!ofHouse[i].getName().equals(name)) {
             i++;
