@@ -49,21 +49,22 @@ public final class HouseBoundsTest {
     private static void clock() {
         sentence("THE CLOCK (0 at first) goes on with them, but not while it is STOPPED; HOUR: THE CLOCK / 60");
         BudgetHouse x = new BudgetHouse();
-        due(x, "count(17) = 0", "'may h = 1' from 0 = 0", "paper(1, 0, 1) = 0", "paper(1, 0, 1) = 1", "paper(1, 0, 1) = 2",
-            "put(0) = NO", "run(59) = 59", "count(17) = 59", "put(0) = NO", "clock(1) = 0", "run(60) = 119",
-            "count(17) = 59", "put(0) = NO", "clock(0) = 1", "run(1) = 120", "count(17) = 60", "put(0) = 0",
-            "run(59) = 179", "put(1) = 0", "run(1) = 180", "count(17) = 120", "put(2) = NO");
+        due(x, "count(17) = 0", "'may h = 1' from 0 = 0", "paper(1, 0, 1) = 0", "paper(1, 0, 1) = 1",
+            "paper(1, 0, 1) = 2", "put(0) = NO", "run(59) = 59", "count(17) = 59", "put(0) = NO", "clock(1) = 0",
+            "run(60) = 119", "count(17) = 59", "put(0) = NO", "clock(0) = 1", "run(1) = 120", "count(17) = 60",
+            "put(0) = 0", "run(59) = 179", "put(1) = 0", "run(1) = 180", "count(17) = 120", "put(2) = NO");
     }
 
     private static void lastMinute() {
         sentence("the MINUTE is 9999 at most: what is till it, in it, or behind it");
         BudgetHouse x = inMinute(9998);
-        due(x, "member(0, 1) = 0", "member(1, 1) = 1", "member(2, 1) = 2", "paper(1, 0, 5) = 0", "train(2, 9999) = NONE",
-            "train(2, 9998) = BAD", "pair(0, 1, 9999) = 0", "pair(0, 1, 10000) = BAD", "print(0, 0, 1) = 1",
-            "print(0, 1, 2) = 2", "would(0, 2) = 1", "told(0, 6) = 0", "run(1) = 9999", "is(2, 3) = 0", "is(0, 4) = NONE",
-            "would(0, 2) = 2", "told(0, 6) = 1", "count(10) = 1", "print(0, 2, 0) = 1", "told(0, 6) = 5",
-            "print(0, 3, 1) = 2", "train(0, 9999) = BAD", "pair(0, 1, 9999) = BAD", "pair(0, 2, 10000) = BAD",
-            "breaks(0) = NO", "train(2, NONE) = 9999", "go(2, 1) = 0", "would(0, 2) = 3");
+        due(x, "member(0, 1) = 0", "member(1, 1) = 1", "member(2, 1) = 2", "paper(1, 0, 5) = 0",
+            "train(2, 9999) = NONE", "train(2, 9998) = BAD", "pair(0, 1, 9999) = 0", "pair(0, 1, 10000) = BAD",
+            "print(0, 0, 1) = 1", "print(0, 1, 2) = 2", "would(0, 2) = 1", "told(0, 6) = 0", "run(1) = 9999",
+            "is(2, 3) = 0", "is(0, 4) = NONE", "would(0, 2) = 2", "told(0, 6) = 1", "count(10) = 1",
+            "print(0, 2, 0) = 1", "told(0, 6) = 5", "print(0, 3, 1) = 2", "train(0, 9999) = BAD",
+            "pair(0, 1, 9999) = BAD", "pair(0, 2, 10000) = BAD", "breaks(0) = NO", "train(2, NONE) = 9999",
+            "go(2, 1) = 0", "would(0, 2) = 3");
         due(inMinute(9999), "paper(1, 0, 1) = 0", "'may h = 166 & c = 39' from 166 = 0", "why(1) = 0", "put(0) = 0");
         due(inMinute(9959), "'may 1' from 166 = 0", "why(1) = NONE", "run(1) = 9960", "why(1) = 0");
     }
@@ -111,8 +112,9 @@ public final class HouseBoundsTest {
     private static void twentyVote() {
         sentence("MEMBERS, 20 at most");
         BudgetHouse x = houseOfTwenty();
-        due(x, "paper(1, 0, 1) = 0", "print(0, 0, 0) = 0", "stance(0, 0, 1) = 0", "stance(1, 0, -1) = 0", "would(0, 0) = 10",
-            "would(0, 1) = 10", "would(0, 2) = 20", "put(0) = 0", "told(0, 7) = 10", "told(0, 8) = 10", "told(0, 9) = 20");
+        due(x, "paper(1, 0, 1) = 0", "print(0, 0, 0) = 0", "stance(0, 0, 1) = 0", "stance(1, 0, -1) = 0",
+            "would(0, 0) = 10", "would(0, 1) = 10", "would(0, 2) = 20", "put(0) = 0", "told(0, 7) = 10",
+            "told(0, 8) = 10", "told(0, 9) = 20");
         for (int m = 0; m < 20; m++) {
             DUE.is("is(" + m + ", 5)", x.is(m, 5), 1);
             DUE.is("read(" + m + ", 0)", x.read(m, 0), 1);
@@ -153,18 +155,18 @@ public final class HouseBoundsTest {
             "train(1, 1) = BAD", "run(240) = 241", "is(1, 3) = 0", "is(2, 3) = 0", "is(0, 2) = 1", "is(2, 2) = 241",
             "go(0, 1) = 0", "train(0, NONE) = 1", "is(0, 2) = NONE", "run(240) = 481", "is(0, 3) = 1");
         DUE.sentence("Promise 9", "MEMBERS whose TRAIN it is are AWAY: by MINUTE, also while THE CLOCK is STOPPED");
-        due(x, "clock(1) = 0", "train(0, 483) = NONE", "train(1, 483) = 2", "run(1) = 482", "is(0, 3) = 1", "run(1) = 483",
-            "is(0, 3) = 0", "is(1, 3) = 0");
+        due(x, "clock(1) = 0", "train(0, 483) = NONE", "train(1, 483) = 2", "run(1) = 482", "is(0, 3) = 1",
+            "run(1) = 483", "is(0, 3) = 0", "is(1, 3) = 0");
     }
 
     private static void pairs() {
         sentence("who is in a PAIR, while it holds, does not vote");
         BudgetHouse x = new BudgetHouse();
         due(x, "member(0, 1) = 0", "member(1, 1) = 1", "member(2, 1) = 2", "paper(1, 0, 1) = 0", "print(0, 0, 0) = 0",
-            "stance(0, 0, 1) = 0", "stance(1, 0, -1) = 0", "stance(2, 0, 1) = 0", "pair(0, 1, 9) = 0", "would(0, 0) = 1",
-            "would(0, 1) = 0", "would(0, 2) = 1", "put(0) = 1", "is(0, 5) = 0", "is(1, 5) = 0", "is(2, 5) = 1",
-            "is(0, 4) = 0", "is(1, 4) = 0", "is(2, 4) = NONE", "go(0, 0) = 1", "is(0, 4) = 0", "would(0, 2) = 1",
-            "breaks(0) = 1", "would(0, 2) = 2", "is(0, 4) = NONE", "is(1, 4) = NONE");
+            "stance(0, 0, 1) = 0", "stance(1, 0, -1) = 0", "stance(2, 0, 1) = 0", "pair(0, 1, 9) = 0",
+            "would(0, 0) = 1", "would(0, 1) = 0", "would(0, 2) = 1", "put(0) = 1", "is(0, 5) = 0", "is(1, 5) = 0",
+            "is(2, 5) = 1", "is(0, 4) = 0", "is(1, 4) = 0", "is(2, 4) = NONE", "go(0, 0) = 1", "is(0, 4) = 0",
+            "would(0, 2) = 1", "breaks(0) = 1", "would(0, 2) = 2", "is(0, 4) = NONE", "is(1, 4) = NONE");
         sentence("one MEMBER is in one PAIR at most that holds");
         due(x, "pair(1, 2, 9) = 1", "pair(0, 1, 9) = NO", "pair(2, 0, 9) = NO", "breaks(0) = NO", "breaks(1) = 1",
             "pair(0, 1, 9) = 2", "is(0, 4) = 2", "is(1, 4) = 2", "is(2, 4) = NONE");
@@ -173,11 +175,12 @@ public final class HouseBoundsTest {
     private static void pairsTill() {
         sentence("A PAIR: two MEMBERS, till a MINUTE (that one not any more)");
         BudgetHouse x = new BudgetHouse();
-        due(x, "member(0, 1) = 0", "member(1, 1) = 1", "pair(0, 1, 1) = 0", "is(0, 4) = 0", "count(2) = 1", "run(1) = 1",
-            "is(0, 4) = NONE", "count(2) = 0", "breaks(0) = NO", "pair(0, 1, 1) = BAD", "pair(0, 1, 3) = 1", "clock(1) = 0",
-            "run(1) = 2", "is(1, 4) = 1", "pair(1, 0, 9) = NO", "run(1) = 3", "is(1, 4) = NONE", "pair(1, 0, 9) = 2");
-        due(inMinute(9997), "member(0, 1) = 0", "member(1, 1) = 1", "pair(0, 1, 9999) = 0", "run(1) = 9998", "is(0, 4) = 0",
-            "run(1) = 9999", "is(0, 4) = NONE", "count(2) = 0");
+        due(x, "member(0, 1) = 0", "member(1, 1) = 1", "pair(0, 1, 1) = 0", "is(0, 4) = 0", "count(2) = 1",
+            "run(1) = 1", "is(0, 4) = NONE", "count(2) = 0", "breaks(0) = NO", "pair(0, 1, 1) = BAD",
+            "pair(0, 1, 3) = 1", "clock(1) = 0", "run(1) = 2", "is(1, 4) = 1", "pair(1, 0, 9) = NO", "run(1) = 3",
+            "is(1, 4) = NONE", "pair(1, 0, 9) = 2");
+        due(inMinute(9997), "member(0, 1) = 0", "member(1, 1) = 1", "pair(0, 1, 9999) = 0", "run(1) = 9998",
+            "is(0, 4) = 0", "run(1) = 9999", "is(0, 4) = NONE", "count(2) = 0");
     }
 
     private static void tenPairs() {
@@ -190,8 +193,8 @@ public final class HouseBoundsTest {
         for (int m = 0; m < 20; m++) {
             DUE.is("is(" + m + ", 4)", x.is(m, 4), m / 2);
         }
-        due(x, "breaks(9) = 1", "would(0, 2) = 2", "pair(18, 19, 9) = FULL", "count(2) = 9", "run(9) = 9", "count(2) = 0",
-            "would(0, 2) = 20", "pair(18, 19, 20) = FULL", "breaks(10) = BAD");
+        due(x, "breaks(9) = 1", "would(0, 2) = 2", "pair(18, 19, 9) = FULL", "count(2) = 9", "run(9) = 9",
+            "count(2) = 0", "would(0, 2) = 20", "pair(18, 19, 20) = FULL", "breaks(10) = BAD");
     }
 
     private static void papersAtFirst() {
@@ -202,7 +205,8 @@ public final class HouseBoundsTest {
         int[][] want = {{0, 0, 0}, {1, 73, 9999}, {2, 1, -9999}, {3, 1, 9999}, {4, 1, 9999}, {5, 1, 69999}, {6, 87, 4},
             {7, 1, 0}};
         for (int p = 0; p < 8; p++) {
-            int[] facts = {want[p][0], want[p][1], want[p][2], 0, p == 3 ? 2 : NONE, p == 3 ? 1 : 0, 0, NONE, NONE, NONE};
+            int[] facts = {want[p][0], want[p][1], want[p][2], 0, p == 3 ? 2 : NONE, p == 3 ? 1 : 0, 0, NONE, NONE,
+                NONE};
             for (int what = 0; what < 10; what++) {
                 DUE.is("told(" + p + ", " + what + ")", x.told(p, what), facts[what]);
             }
@@ -241,10 +245,11 @@ public final class HouseBoundsTest {
         }
         sentence("DEAL: b: a PAPER of KINDS 1 .. 4");
         BudgetHouse x = new BudgetHouse();
-        due(x, "paper(0, 0, 0) = 0", "paper(1, 0, 0) = 1", "paper(2, 1, 0) = 2", "hung(1, 0, 2, 0) = 3", "paper(4, 1, 0) = 4",
-            "paper(5, 1, 0) = 5", "paper(6, 1, 1) = 6", "paper(7, 1, 0) = 7", "paper(6, 1, 0) = BAD", "paper(6, 1, 5) = BAD",
-            "paper(6, 1, 6) = BAD", "paper(6, 1, 7) = BAD", "paper(6, 1, 8) = BAD", "paper(6, 1, -1) = BAD",
-            "paper(6, 1, 2) = 8", "paper(6, 1, 3) = 9", "paper(6, 1, 4) = 10");
+        due(x, "paper(0, 0, 0) = 0", "paper(1, 0, 0) = 1", "paper(2, 1, 0) = 2", "hung(1, 0, 2, 0) = 3",
+            "paper(4, 1, 0) = 4", "paper(5, 1, 0) = 5", "paper(6, 1, 1) = 6", "paper(7, 1, 0) = 7",
+            "paper(6, 1, 0) = BAD", "paper(6, 1, 5) = BAD", "paper(6, 1, 6) = BAD", "paper(6, 1, 7) = BAD",
+            "paper(6, 1, 8) = BAD", "paper(6, 1, -1) = BAD", "paper(6, 1, 2) = 8", "paper(6, 1, 3) = 9",
+            "paper(6, 1, 4) = 10");
     }
 
     /** The last one of 40 in each part that a PAPER can have; the first one is the LINE of all. */

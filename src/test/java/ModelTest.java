@@ -22,6 +22,8 @@ public final class ModelTest {
     /** How this run behaves: how often arguments are wild, how much time goes by, what is looked at most. */
     private final int wild;
     private final boolean hasty;
+    private final boolean crowded;
+    private final boolean late;
     private final int[] weights;
 
     private ModelTest(long seed, Method[] ofHouse, Method[] ofModel) {
@@ -30,6 +32,8 @@ public final class ModelTest {
         this.ofModel = ofModel;
         this.wild = new int[] {0, 2, 5, 30}[random.nextInt(4)];
         this.hasty = random.nextInt(4) == 0;
+        this.crowded = random.nextInt(6) == 0;
+        this.late = random.nextInt(10) == 0;
         this.weights = new int[ofHouse.length];
         for (int i = 0; i < weights.length; i++) {
             weights[i] = 1 + random.nextInt(random.nextInt(4) == 0 ? 20 : 4);
@@ -67,6 +71,12 @@ public final class ModelTest {
 
     private void go() throws IllegalAccessException {
         begin();
+        if (crowded) {
+            crowd();
+        }
+        if (late) {
+            goLate();
+        }
         while (calls.size() < CALLS && !DUE.isWrong()) {
             int turn = random.nextInt(100);
             if (turn < 4) {
@@ -119,6 +129,41 @@ public final class ModelTest {
         for (int i = random.nextInt(3); i > 0; i--) {
             ask("income", 10 * random.nextInt(10), 100 * (1 + random.nextInt(5)));
         }
+    }
+
+    /** Nearly as much of everything as there may be. */
+    private void crowd() throws IllegalAccessException {
+        for (int i = model.count(0); i < 18 + random.nextInt(4); i++) {
+            ask("member", random.nextInt(9), random.nextInt(128));
+        }
+        for (int i = model.count(3); i < 36 + random.nextInt(6); i++) {
+            if (random.nextInt(4) == 0) {
+                ask("hung", usual("hung"));
+            } else {
+                ask("paper", aNewPaper());
+            }
+        }
+        for (int i = 0; i < 27 + random.nextInt(6); i++) {
+            ask("print", aPaper(), random.nextInt(7), 1 + random.nextInt(99));
+        }
+        for (int i = 0; i < 6 + random.nextInt(4); i++) {
+            ask("income", usual("income"));
+            ask("offer", usual("offer"));
+            ask("interpreter");
+            ask("pair", usual("pair"));
+        }
+        for (int i = 0; i < 9; i++) {
+            feedText();
+        }
+    }
+
+    /** The last MINUTES. */
+    private void goLate() throws IllegalAccessException {
+        for (int i = 0; i < 41; i++) {
+            ask("run", 240);
+        }
+        ask("run", 100 + random.nextInt(59));
+        ask("keep");
     }
 
     private void ask(String name, int... args) throws IllegalAccessException {

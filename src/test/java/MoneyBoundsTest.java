@@ -45,10 +45,10 @@ public final class MoneyBoundsTest {
 
     private static void leastAndMost() {
         sentence("LEAST 0 .. 9999 and MOST LEAST .. 9999");
-        due(new BudgetHouse(), "income(0, 0) = 0", "income(0, 9999) = 1", "income(9999, 9999) = 2", "income(9998, 9999) = 3",
-            "income(9999, 9998) = BAD", "income(1, 0) = BAD", "income(0, 10000) = BAD", "income(10000, 10000) = BAD",
-            "income(-1, 0) = BAD", "income(-1, -1) = BAD", "income(5, 5) = 4", "income(5, 4) = BAD", "count(11) = 5",
-            "balance(0) = 20002", "balance(1) = 30002");
+        due(new BudgetHouse(), "income(0, 0) = 0", "income(0, 9999) = 1", "income(9999, 9999) = 2",
+            "income(9998, 9999) = 3", "income(9999, 9998) = BAD", "income(1, 0) = BAD", "income(0, 10000) = BAD",
+            "income(10000, 10000) = BAD", "income(-1, 0) = BAD", "income(-1, -1) = BAD", "income(5, 5) = 4",
+            "income(5, 4) = BAD", "count(11) = 5", "balance(0) = 20002", "balance(1) = 30002");
     }
 
     private static void balanceOfForty() {
@@ -73,35 +73,37 @@ public final class MoneyBoundsTest {
     private static void balanceByState() {
         sentence("SUMS of all LINES that are OPEN or PASSED (not LOST, not VOID; MENDED again)");
         BudgetHouse x = new BudgetHouse();
-        due(x, "member(0, 1) = 0", "paper(1, 73, 7) = 0", "paper(4, 0, 500) = 1", "paper(5, 0, 500) = 2", "paper(2, 0, 500) = 3",
-            "paper(7, 0, 0) = 4", "balance(0) = -7", "balance(9) = 7", "balance(13) = 7", "balance(8) = 0", "balance(12) = 0",
-            "print(0, 0, 0) = 0", "stance(0, 0, 1) = 0", "put(0) = 1", "balance(0) = -7", "balance(9) = 7", "rule(4) = 2",
-            "balance(0) = 0", "balance(9) = 0", "balance(13) = 0", "mend(0) = 1", "balance(0) = -7", "balance(13) = 7",
-            "stance(0, 0, -1) = 1", "put(0) = 0", "balance(0) = 0", "balance(1) = 0", "balance(9) = 0", "balance(13) = 0");
+        due(x, "member(0, 1) = 0", "paper(1, 73, 7) = 0", "paper(4, 0, 500) = 1", "paper(5, 0, 500) = 2",
+            "paper(2, 0, 500) = 3", "paper(7, 0, 0) = 4", "balance(0) = -7", "balance(9) = 7", "balance(13) = 7",
+            "balance(8) = 0", "balance(12) = 0", "print(0, 0, 0) = 0", "stance(0, 0, 1) = 0", "put(0) = 1",
+            "balance(0) = -7", "balance(9) = 7", "rule(4) = 2", "balance(0) = 0", "balance(9) = 0", "balance(13) = 0",
+            "mend(0) = 1", "balance(0) = -7", "balance(13) = 7", "stance(0, 0, -1) = 1", "put(0) = 0", "balance(0) = 0",
+            "balance(1) = 0", "balance(9) = 0", "balance(13) = 0");
     }
 
     private static void breakAtZero() {
         sentence("the first CHANGE behind which BALANCE at MOST is below 0 (it may be ahead of it, too)");
         BudgetHouse x = new BudgetHouse();
         due(x, "paper(1, 0, 50) = 0", "first() = NONE", "income(0, 60) = 0", "paper(2, 0, 10) = 1", "first() = NONE",
-            "paper(2, 0, 0) = 2", "first() = NONE", "paper(2, 0, 1) = 3", "first() = 3", "paper(2, 0, -1) = 4", "first() = 3",
-            "'order 0-v' from 0 = 0", "first() = NONE", "'order v=0' from 0 = 1", "first() = 3");
+            "paper(2, 0, 0) = 2", "first() = NONE", "paper(2, 0, 1) = 3", "first() = 3", "paper(2, 0, -1) = 4",
+            "first() = 3", "'order 0-v' from 0 = 0", "first() = NONE", "'order v=0' from 0 = 1", "first() = 3");
         BudgetHouse y = new BudgetHouse();
-        due(y, "paper(1, 0, 5) = 0", "balance(1) = -5", "first() = NONE", "paper(2, 0, 0) = 1", "first() = 1", "paper(2, 0, -5) = 2",
-            "first() = 1", "'order 0-v' from 0 = 0", "first() = NONE", "paper(2, 0, -4) = 3", "first() = NONE",
-            "'order v=0-4' from 0 = 1", "first() = 3");
+        due(y, "paper(1, 0, 5) = 0", "balance(1) = -5", "first() = NONE", "paper(2, 0, 0) = 1", "first() = 1",
+            "paper(2, 0, -5) = 2", "first() = 1", "'order 0-v' from 0 = 0", "first() = NONE", "paper(2, 0, -4) = 3",
+            "first() = NONE", "'order v=0-4' from 0 = 1", "first() = 3");
     }
 
     private static void breakHeld() {
         sentence("if each were PASSED in it as it stands (SUMS held as told, what hangs ON others not looked at)");
         BudgetHouse x = new BudgetHouse();
-        due(x, "income(0, 9999) = 0", "paper(1, 0, 9000) = 0", "paper(2, 0, 9999) = 1", "first() = NONE", "paper(2, 0, -9999) = 2",
-            "paper(1, 0, 1) = 3", "first() = 1", "'order 0-v' from 0 = 0", "first() = 1", "income(1, 1) = 1", "first() = NONE",
-            "told(0, 2) = 9000");
+        due(x, "income(0, 9999) = 0", "paper(1, 0, 9000) = 0", "paper(2, 0, 9999) = 1", "first() = NONE",
+            "paper(2, 0, -9999) = 2", "paper(1, 0, 1) = 3", "first() = 1", "'order 0-v' from 0 = 0", "first() = 1",
+            "income(1, 1) = 1", "first() = NONE", "told(0, 2) = 9000");
         BudgetHouse y = new BudgetHouse();
-        due(y, "income(0, 20) = 0", "paper(1, 0, 10) = 0", "paper(2, 0, -10) = 1", "paper(2, 0, -5) = 2", "paper(2, 0, 20) = 3",
-            "first() = NONE", "hung(0, 1, 1, 0) = 4", "first() = 4", "hung(0, -1, 1, 1) = 5", "'order k=3' from 0 = 0", "first() = NONE",
-            "hung(0, 11, 1, 1) = 6", "first() = 6", "told(0, 2) = 10", "told(6, 3) = 0");
+        due(y, "income(0, 20) = 0", "paper(1, 0, 10) = 0", "paper(2, 0, -10) = 1", "paper(2, 0, -5) = 2",
+            "paper(2, 0, 20) = 3", "first() = NONE", "hung(0, 1, 1, 0) = 4", "first() = 4", "hung(0, -1, 1, 1) = 5",
+            "'order k=3' from 0 = 0", "first() = NONE", "hung(0, 11, 1, 1) = 6", "first() = 6", "told(0, 2) = 10",
+            "told(6, 3) = 0");
     }
 
     private static void breakOfForty() {
@@ -132,19 +134,20 @@ public final class MoneyBoundsTest {
         sentence("BALANCE at MOST: all INCOMES at it less SUMS of all LINES (of whatever OFFICE and LAND)");
         for (int a : new int[] {0, 3, 10, 12, 70, 73}) {
             BudgetHouse x = new BudgetHouse();
-            due(x, "income(0, 100) = 0", "income(0, 50) = 1", "paper(1, " + a + ", 100) = 0", "paper(1, 31, 40) = 1", "paper(2, 0, 10) = 2",
-                "first() = NONE", "paper(2, 1, 1) = 3", "first() = 3", "income(1, 1) = 2", "first() = NONE", "paper(2, 0, 1) = 4",
-                "first() = 4");
+            due(x, "income(0, 100) = 0", "income(0, 50) = 1", "paper(1, " + a + ", 100) = 0", "paper(1, 31, 40) = 1",
+                "paper(2, 0, 10) = 2", "first() = NONE", "paper(2, 1, 1) = 3", "first() = 3", "income(1, 1) = 2",
+                "first() = NONE", "paper(2, 0, 1) = 4", "first() = 4");
         }
     }
 
     private static void breakByState() {
         sentence("THE BREAK: a CHANGE to a LINE that is LOST or VOID makes BALANCE neither more nor less");
         BudgetHouse x = new BudgetHouse();
-        due(x, "member(0, 1) = 0", "income(0, 60) = 0", "paper(1, 0, 50) = 0", "paper(2, 0, 11) = 1", "paper(7, 0, 0) = 2", "first() = 1",
-            "print(0, 0, 0) = 0", "stance(0, 0, 1) = 0", "put(0) = 1", "first() = 1", "rule(2) = 1", "first() = NONE", "mend(0) = 1",
-            "first() = 1", "stance(0, 0, -1) = 1", "put(0) = 0", "first() = NONE", "paper(2, 0, 61) = 3", "first() = NONE",
-            "paper(1, 0, 61) = 4", "first() = 3");
+        due(x, "member(0, 1) = 0", "income(0, 60) = 0", "paper(1, 0, 50) = 0", "paper(2, 0, 11) = 1",
+            "paper(7, 0, 0) = 2", "first() = 1", "print(0, 0, 0) = 0", "stance(0, 0, 1) = 0", "put(0) = 1",
+            "first() = 1", "rule(2) = 1", "first() = NONE", "mend(0) = 1", "first() = 1", "stance(0, 0, -1) = 1",
+            "put(0) = 0", "first() = NONE", "paper(2, 0, 61) = 3", "first() = NONE", "paper(1, 0, 61) = 4",
+            "first() = 3");
     }
 
     private static void years() {
@@ -177,25 +180,26 @@ public final class MoneyBoundsTest {
     private static void sorts() {
         DUE.sentence("Promise 33", "becomes a row of n YEARS of a sort, all 0 (sort -1: MISSING, n any): n (0)");
         BudgetHouse x = new BudgetHouse();
-        due(x, "book(0, 0, 20) = 20", "note(0, 0, 7) = 1", "note(0, 19, 7) = 1", "book(0, 0, 20) = 20", "looks(0, 0) = 0",
-            "looks(0, 19) = 0", "note(0, 0, 7) = 1", "note(0, 19, 7) = 1", "book(0, 1, 20) = 20", "looks(0, 0) = 0", "looks(0, 19) = 0",
-            "note(0, 19, NONE) = 1", "note(0, 0, NONE) = 1", "book(0, 0, 5) = 5", "looks(0, 0) = 0", "looks(0, 4) = 0", "looks(0, 5) = INDEX",
-            "book(0, 0, 20) = 20", "looks(0, 19) = 0", "book(0, -1, 0) = 0", "looks(0, 0) = NOTHING", "book(0, -1, -1) = 0",
-            "book(0, -1, MIN) = 0", "book(0, -1, MAX) = 0", "book(0, -1, 21) = 0", "looks(0, 0) = NOTHING", "book(0, 0, 0) = 0",
+        due(x, "book(0, 0, 20) = 20", "note(0, 0, 7) = 1", "note(0, 19, 7) = 1", "book(0, 0, 20) = 20",
+            "looks(0, 0) = 0", "looks(0, 19) = 0", "note(0, 0, 7) = 1", "note(0, 19, 7) = 1", "book(0, 1, 20) = 20",
+            "looks(0, 0) = 0", "looks(0, 19) = 0", "note(0, 19, NONE) = 1", "note(0, 0, NONE) = 1", "book(0, 0, 5) = 5",
+            "looks(0, 0) = 0", "looks(0, 4) = 0", "looks(0, 5) = INDEX", "book(0, 0, 20) = 20", "looks(0, 19) = 0",
+            "book(0, -1, 0) = 0", "looks(0, 0) = NOTHING", "book(0, -1, -1) = 0", "book(0, -1, MIN) = 0",
+            "book(0, -1, MAX) = 0", "book(0, -1, 21) = 0", "looks(0, 0) = NOTHING", "book(0, 0, 0) = 0",
             "looks(0, 0) = INDEX", "span(0, 0) = 8", "book(0, 1, 1) = 1", "looks(0, 0) = 0", "span(0, 0) = 7");
-        due(new BudgetHouse(), "book(7, -1, 5) = 0", "looks(7, 0) = NOTHING", "book(8, -1, 5) = BAD", "book(-1, -1, 5) = BAD",
-            "book(7, 0, 20) = 20", "book(6, 0, 20) = 20", "note(7, 0, 5) = 1", "note(6, 19, 6) = 1", "book(6, 1, 20) = 20",
-            "looks(7, 0) = 5", "looks(6, 19) = 0");
+        due(new BudgetHouse(), "book(7, -1, 5) = 0", "looks(7, 0) = NOTHING", "book(8, -1, 5) = BAD",
+            "book(-1, -1, 5) = BAD", "book(7, 0, 20) = 20", "book(6, 0, 20) = 20", "note(7, 0, 5) = 1",
+            "note(6, 19, 6) = 1", "book(6, 1, 20) = 20", "looks(7, 0) = 5", "looks(6, 19) = 0");
     }
 
     private static void ints() {
         DUE.sentence("Promise 34", "A YEAR of a BOOK becomes v; KIND: NONE in a row of ints");
         BudgetHouse x = new BudgetHouse();
         due(x, "book(0, 0, 2) = 2");
-        for (String v : new String[] {"MIN", "MAX", "BAD", "NO", "FULL", "NOTHING", "KIND", "INDEX", "SIZE", "100001", "-100001", "0",
-            "-1000000004", "-1000000006"}) {
-            due(x, "note(0, 1, " + v + ") = 1", "looks(0, 1) = " + v, "span(1, 1) = " + v, "span(1, 2) = " + v, "note(0, 1, NONE) = KIND",
-                "looks(0, 1) = " + v, "looks(0, 0) = 0");
+        for (String v : new String[] {"MIN", "MAX", "BAD", "NO", "FULL", "NOTHING", "KIND", "INDEX", "SIZE", "100001",
+            "-100001", "0", "-1000000004", "-1000000006"}) {
+            due(x, "note(0, 1, " + v + ") = 1", "looks(0, 1) = " + v, "span(1, 1) = " + v, "span(1, 2) = " + v,
+                "note(0, 1, NONE) = KIND", "looks(0, 1) = " + v, "looks(0, 0) = 0");
         }
     }
 
@@ -209,8 +213,9 @@ public final class MoneyBoundsTest {
                 due(x, "note(0, 1, " + bad + ") = BAD", "looks(0, 1) = " + v);
             }
         }
-        due(x, "note(0, 0, 8) = 1", "note(0, 1, NONE) = 1", "looks(0, 1) = 8", "note(0, 0, NONE) = 1", "looks(0, 0) = KIND",
-            "looks(0, 1) = KIND", "note(0, 2, NONE) = INDEX", "note(0, 1, -2) = 1", "looks(0, 0) = KIND", "looks(0, 1) = -2");
+        due(x, "note(0, 0, 8) = 1", "note(0, 1, NONE) = 1", "looks(0, 1) = 8", "note(0, 0, NONE) = 1",
+            "looks(0, 0) = KIND", "looks(0, 1) = KIND", "note(0, 2, NONE) = INDEX", "note(0, 1, -2) = 1",
+            "looks(0, 0) = KIND", "looks(0, 1) = -2");
     }
 
     private static void noNumbers() {
@@ -225,8 +230,8 @@ public final class MoneyBoundsTest {
             DUE.is("span(" + year + ", 1)", x.span(year, 1), 5);
         }
         due(x, "note(0, 10, 6) = 1", "looks(0, 9) = 5", "looks(0, 10) = 6", "looks(0, 19) = 6", "note(0, 0, NONE) = 1",
-            "looks(0, 0) = KIND", "looks(0, 9) = KIND", "span(9, 0) = 8", "span(9, 1) = NONE", "span(9, 2) = NONE", "looks(0, 10) = 6",
-            "note(0, 10, NONE) = 1");
+            "looks(0, 0) = KIND", "looks(0, 9) = KIND", "span(9, 0) = 8", "span(9, 1) = NONE", "span(9, 2) = NONE",
+            "looks(0, 10) = 6", "note(0, 10, NONE) = 1");
         for (int year = 0; year < 20; year++) {
             DUE.is("looks(0, " + year + ")", x.looks(0, year), BudgetHouse.KIND);
             DUE.is("span(" + year + ", 0)", x.span(year, 0), 8);
@@ -246,17 +251,20 @@ public final class MoneyBoundsTest {
             DUE.is("looks(7, " + year + ")", x.looks(7, year), year + 1);
             DUE.is("looks(6, " + year + ")", x.looks(6, year), year + 1);
         }
-        due(x, "copy(6, 19, 7, 0, 1) = 1", "looks(7, 0) = 20", "copy(6, 0, 7, 19, 1) = 1", "looks(7, 19) = 1", "looks(7, 18) = 19",
-            "copy(6, 20, 7, 20, 0) = 0", "copy(6, 20, 7, 0, 0) = 0", "copy(6, 0, 7, 20, 0) = 0", "copy(6, 21, 7, 0, 0) = INDEX",
-            "copy(6, 0, 7, 21, 0) = INDEX", "copy(6, 20, 7, 0, 1) = INDEX", "copy(6, 0, 7, 20, 1) = INDEX", "copy(6, 1, 7, 0, 20) = INDEX",
-            "copy(6, 0, 7, 1, 20) = INDEX", "copy(6, 1, 7, 1, 19) = 19", "looks(7, 0) = 20", "looks(7, 1) = 2", "looks(7, 19) = 20");
-        due(x, "book(0, 0, 0) = 0", "copy(0, 0, 0, 0, 0) = 0", "copy(0, 0, 6, 20, 0) = 0", "copy(0, 0, 6, 0, 1) = INDEX",
-            "copy(6, 0, 0, 0, 1) = INDEX", "copy(0, 1, 0, 0, 0) = INDEX", "copy(0, 0, 0, 0, -1) = INDEX");
+        due(x, "copy(6, 19, 7, 0, 1) = 1", "looks(7, 0) = 20", "copy(6, 0, 7, 19, 1) = 1", "looks(7, 19) = 1",
+            "looks(7, 18) = 19", "copy(6, 20, 7, 20, 0) = 0", "copy(6, 20, 7, 0, 0) = 0", "copy(6, 0, 7, 20, 0) = 0",
+            "copy(6, 21, 7, 0, 0) = INDEX", "copy(6, 0, 7, 21, 0) = INDEX", "copy(6, 20, 7, 0, 1) = INDEX",
+            "copy(6, 0, 7, 20, 1) = INDEX", "copy(6, 1, 7, 0, 20) = INDEX", "copy(6, 0, 7, 1, 20) = INDEX",
+            "copy(6, 1, 7, 1, 19) = 19", "looks(7, 0) = 20", "looks(7, 1) = 2", "looks(7, 19) = 20");
+        due(x, "book(0, 0, 0) = 0", "copy(0, 0, 0, 0, 0) = 0", "copy(0, 0, 6, 20, 0) = 0",
+            "copy(0, 0, 6, 0, 1) = INDEX", "copy(6, 0, 0, 0, 1) = INDEX", "copy(0, 1, 0, 0, 0) = INDEX",
+            "copy(0, 0, 0, 0, -1) = INDEX");
         sentence("A YEAR of floats may be NO NUMBER (copied as it is)");
         BudgetHouse y = new BudgetHouse();
-        due(y, "book(0, 1, 3) = 3", "note(0, 0, 5) = 1", "note(0, 1, NONE) = 1", "note(0, 2, 7) = 1", "book(7, 1, 3) = 3", "note(7, 0, -4) = 1",
-            "copy(0, 1, 7, 1, 2) = 2", "looks(7, 0) = -4", "looks(7, 1) = -4", "looks(7, 2) = 7", "copy(0, 1, 7, 0, 1) = 1",
-            "looks(7, 0) = KIND", "looks(7, 1) = KIND");
+        due(y, "book(0, 1, 3) = 3", "note(0, 0, 5) = 1", "note(0, 1, NONE) = 1", "note(0, 2, 7) = 1",
+            "book(7, 1, 3) = 3", "note(7, 0, -4) = 1", "copy(0, 1, 7, 1, 2) = 2", "looks(7, 0) = -4",
+            "looks(7, 1) = -4", "looks(7, 2) = 7", "copy(0, 1, 7, 0, 1) = 1", "looks(7, 0) = KIND",
+            "looks(7, 1) = KIND");
     }
 
     private static void copiesOverItself() {
@@ -284,8 +292,9 @@ public final class MoneyBoundsTest {
         for (int year = 0; year < 20; year++) {
             x.note(0, year, year);
         }
-        due(x, "copy(0, 0, 0, 1, 19) = 19", "looks(0, 0) = 0", "looks(0, 1) = 0", "looks(0, 19) = 18", "copy(0, 1, 0, 0, 19) = 19",
-            "looks(0, 0) = 0", "looks(0, 18) = 18", "looks(0, 19) = 18", "copy(0, 0, 0, 0, 20) = 20", "looks(0, 18) = 18");
+        due(x, "copy(0, 0, 0, 1, 19) = 19", "looks(0, 0) = 0", "looks(0, 1) = 0", "looks(0, 19) = 18",
+            "copy(0, 1, 0, 0, 19) = 19", "looks(0, 0) = 0", "looks(0, 18) = 18", "looks(0, 19) = 18",
+            "copy(0, 0, 0, 0, 20) = 20", "looks(0, 18) = 18");
     }
 
     private static void spans() {
@@ -304,12 +313,13 @@ public final class MoneyBoundsTest {
             DUE.is("span(0, 1)", x.span(0, 1), least);
             DUE.is("span(0, 2)", x.span(0, 2), greatest);
         }
-        due(x, "span(1, 0) = 1", "span(7, 0) = 7", "span(7, 1) = 0", "span(8, 0) = 8", "span(8, 1) = NONE", "span(MAX, 0) = 8",
-            "span(MAX, 2) = NONE", "note(1, 0, NONE) = 1", "span(0, 0) = 1", "span(0, 1) = -20", "span(-1, 0) = BAD", "span(MIN, 0) = BAD",
-            "note(0, 0, MAX) = 1", "note(2, 0, MIN) = 1", "span(0, 1) = MIN", "span(0, 2) = MAX", "book(0, -1, 0) = 0", "span(0, 2) = 12",
-            "span(0, 0) = 2");
+        due(x, "span(1, 0) = 1", "span(7, 0) = 7", "span(7, 1) = 0", "span(8, 0) = 8", "span(8, 1) = NONE",
+            "span(MAX, 0) = 8", "span(MAX, 2) = NONE", "note(1, 0, NONE) = 1", "span(0, 0) = 1", "span(0, 1) = -20",
+            "span(-1, 0) = BAD", "span(MIN, 0) = BAD", "note(0, 0, MAX) = 1", "note(2, 0, MIN) = 1", "span(0, 1) = MIN",
+            "span(0, 2) = MAX", "book(0, -1, 0) = 0", "span(0, 2) = 12", "span(0, 0) = 2");
         BudgetHouse y = new BudgetHouse();
-        due(y, "book(3, 0, 1) = 1", "note(3, 0, MIN) = 1", "span(0, 1) = MIN", "span(0, 2) = MIN", "note(3, 0, MAX) = 1", "span(0, 1) = MAX",
-            "span(0, 2) = MAX", "book(4, 1, 1) = 1", "note(4, 0, NONE) = 1", "span(0, 0) = 7", "span(0, 1) = MAX");
+        due(y, "book(3, 0, 1) = 1", "note(3, 0, MIN) = 1", "span(0, 1) = MIN", "span(0, 2) = MIN",
+            "note(3, 0, MAX) = 1", "span(0, 1) = MAX", "span(0, 2) = MAX", "book(4, 1, 1) = 1", "note(4, 0, NONE) = 1",
+            "span(0, 0) = 7", "span(0, 1) = MAX");
     }
 }

@@ -1,3 +1,5 @@
+import java.util.List;
+
 /**
  * The range of every argument: its least and its greatest number are taken, one below and one above are refused, and
  * a refused call changes nothing. (Arguments that are no range, and which refusal stands first: RefusedTest.)
@@ -6,7 +8,7 @@ public final class RangesTest {
     private static final int BAD = BudgetHouse.BAD, INDEX = BudgetHouse.INDEX, SIZE = BudgetHouse.SIZE;
     private static final int MAX = Integer.MAX_VALUE, MIN = Integer.MIN_VALUE;
     private static final Due DUE = new Due("RangesTest");
-    private static final java.util.List<String> MADE = Houses.calls(Houses.RICH);
+    private static final List<String> MADE = Houses.calls(Houses.RICH);
     private static final Unchanged RICH = new Unchanged(MADE);
     private static int promise;
 

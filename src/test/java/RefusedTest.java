@@ -140,8 +140,8 @@ public final class RefusedTest {
             "paper(2, 1, 10000) = BAD", "paper(2, 1, -10000) = BAD", "paper(7, 1, 1) = BAD", "paper(7, 1, -1) = BAD");
         // What is no LINE: a PAPER, a CHANGE, a HUNG one, a RIDER, a TONGUE, a DEAL, a RULING, none.
         for (int a : new int[] {0, 2, 3, 5, 6, 7, 8, 21, -1, 40}) {
-            refused(RICH, "paper(2, " + a + ", 5) = BAD", "paper(4, " + a + ", 5) = BAD", "paper(5, " + a + ", 5) = BAD",
-                "paper(7, " + a + ", 0) = BAD");
+            refused(RICH, "paper(2, " + a + ", 5) = BAD", "paper(4, " + a + ", 5) = BAD",
+                "paper(5, " + a + ", 5) = BAD", "paper(7, " + a + ", 0) = BAD");
         }
         // What is of none of KINDS 1 .. 4: a PAPER, a TONGUE, a DEAL, a RULING, none.
         for (int b : new int[] {0, 6, 7, 8, 21, -1, 40}) {
@@ -152,11 +152,11 @@ public final class RefusedTest {
                 "paper(6, " + (90 + party) + ", 1) = BAD");
         }
         refused(RICH, "paper(6, -12, 1) = BAD", "paper(6, -1, 1) = BAD", "paper(6, 100, 1) = BAD");
-        refused(FULL, "paper(0, 0, 0) = FULL", "paper(1, 0, 0) = FULL", "paper(2, 0, 0) = FULL", "paper(4, 0, 0) = FULL",
-            "paper(5, 0, 0) = FULL", "paper(6, 12, 0) = FULL", "paper(7, 0, 0) = FULL", "paper(0, 0, 1) = BAD",
-            "paper(1, 4, 0) = BAD", "paper(1, 0, -1) = BAD", "paper(2, 9, 0) = BAD", "paper(3, 0, 0) = BAD",
-            "paper(4, 9, 0) = BAD", "paper(5, 0, 70000) = BAD", "paper(6, 11, 0) = BAD", "paper(7, 0, 1) = BAD",
-            "paper(8, 0, 0) = BAD");
+        refused(FULL, "paper(0, 0, 0) = FULL", "paper(1, 0, 0) = FULL", "paper(2, 0, 0) = FULL",
+            "paper(4, 0, 0) = FULL", "paper(5, 0, 0) = FULL", "paper(6, 12, 0) = FULL", "paper(7, 0, 0) = FULL",
+            "paper(0, 0, 1) = BAD", "paper(1, 4, 0) = BAD", "paper(1, 0, -1) = BAD", "paper(2, 9, 0) = BAD",
+            "paper(3, 0, 0) = BAD", "paper(4, 9, 0) = BAD", "paper(5, 0, 70000) = BAD", "paper(6, 11, 0) = BAD",
+            "paper(7, 0, 1) = BAD", "paper(8, 0, 0) = BAD");
     }
 
     private static void hung() {
@@ -173,7 +173,8 @@ public final class RefusedTest {
             "hung(1, 5, 2, -1) = BAD", "hung(1, 5, 2, NONE) = BAD", "hung(1, 5, NONE, 0) = BAD",
             "hung(NONE, 5, 2, 0) = BAD", "hung(1, NONE, 2, 0) = BAD");
         refused(FULL, "hung(0, 1, 9, 0) = FULL", "hung(8, -9999, 39, 1) = FULL", "hung(9, 1, 9, 0) = BAD",
-            "hung(0, 10000, 9, 0) = BAD", "hung(0, 1, 0, 0) = BAD", "hung(0, 1, 9, 2) = BAD", "hung(0, 1, 40, 0) = BAD");
+            "hung(0, 10000, 9, 0) = BAD", "hung(0, 1, 0, 0) = BAD", "hung(0, 1, 9, 2) = BAD",
+            "hung(0, 1, 40, 0) = BAD");
     }
 
     private static void tellsOfPapers() {
@@ -187,22 +188,22 @@ public final class RefusedTest {
             "as(0, -1) = BAD", "as(21, 0) = BAD", "as(21, 8) = BAD");
         sentence(14, "BAD.");
         refused(EMPTY, "stance(0, 0, 0) = BAD");
-        refused(RICH, "stance(9, 1, 5) = BAD", "stance(-1, 1, 5) = BAD", "stance(0, 21, 5) = BAD", "stance(1, 1, 10) = BAD",
-            "stance(1, 1, -10) = BAD", "stance(1, 1, NONE) = BAD");
+        refused(RICH, "stance(9, 1, 5) = BAD", "stance(-1, 1, 5) = BAD", "stance(0, 21, 5) = BAD",
+            "stance(1, 1, 10) = BAD", "stance(1, 1, -10) = BAD", "stance(1, 1, NONE) = BAD");
         sentence(15, "BAD; FULL (with 0, too).");
         refused(EMPTY, "print(0, 0, 0) = BAD");
-        refused(RICH, "print(21, 0, 0) = BAD", "print(1, 7, 0) = BAD", "print(1, -1, 0) = BAD", "print(1, 2, 100) = BAD",
-            "print(1, 2, -1) = BAD", "print(1, NONE, 0) = BAD", "print(1, 2, NONE) = BAD");
-        refused(FULL, "print(0, 0, 5) = FULL", "print(0, 0, 0) = FULL", "print(39, 6, 99) = FULL", "print(40, 0, 0) = BAD",
-            "print(0, 7, 0) = BAD", "print(0, 0, 100) = BAD", "print(0, 0, -1) = BAD");
+        refused(RICH, "print(21, 0, 0) = BAD", "print(1, 7, 0) = BAD", "print(1, -1, 0) = BAD",
+            "print(1, 2, 100) = BAD", "print(1, 2, -1) = BAD", "print(1, NONE, 0) = BAD", "print(1, 2, NONE) = BAD");
+        refused(FULL, "print(0, 0, 5) = FULL", "print(0, 0, 0) = FULL", "print(39, 6, 99) = FULL",
+            "print(40, 0, 0) = BAD", "print(0, 7, 0) = BAD", "print(0, 0, 100) = BAD", "print(0, 0, -1) = BAD");
         sentence(16, "BAD.");
         refused(EMPTY, "read(0, 0) = BAD");
         refused(RICH, "read(6, 1) = BAD", "read(1, 21) = BAD", "read(-1, 1) = BAD", "read(1, -1) = BAD");
         sentence(17, "BAD; KIND: none of KINDS 1 .. 4.");
         refused(EMPTY, "would(0, 0) = BAD");
         refused(RICH, "would(0, 0) = KIND", "would(6, 3) = KIND", "would(7, 0) = KIND", "would(8, 2) = KIND",
-            "would(16, 0) = KIND", "would(0, 4) = BAD", "would(6, -1) = BAD", "would(21, 0) = BAD", "would(21, 4) = BAD",
-            "would(1, 4) = BAD");
+            "would(16, 0) = KIND", "would(0, 4) = BAD", "would(6, -1) = BAD", "would(21, 0) = BAD",
+            "would(21, 4) = BAD", "would(1, 4) = BAD");
         sentence(23, "BAD: i below 0; NONE.");
         refused(EMPTY, "row(0) = NONE", "row(-1) = BAD");
         refused(RICH, "row(-1) = BAD", "row(MIN) = BAD", "row(5) = NONE", "row(MAX) = NONE");
@@ -320,8 +321,9 @@ public final class RefusedTest {
 
     private static void incomes() {
         sentence(30, "BAD; FULL.");
-        refused(RICH, "income(5, 4) = BAD", "income(-1, 4) = BAD", "income(0, 10000) = BAD", "income(10000, 10000) = BAD",
-            "income(9999, 9998) = BAD", "income(0, -1) = BAD", "income(NONE, 5) = BAD", "income(0, NONE) = BAD");
+        refused(RICH, "income(5, 4) = BAD", "income(-1, 4) = BAD", "income(0, 10000) = BAD",
+            "income(10000, 10000) = BAD", "income(9999, 9998) = BAD", "income(0, -1) = BAD", "income(NONE, 5) = BAD",
+            "income(0, NONE) = BAD");
         refused(FULL, "income(0, 0) = FULL", "income(9999, 9999) = FULL", "income(5, 4) = BAD", "income(-1, 4) = BAD",
             "income(0, 10000) = BAD");
         sentence(31, "BAD.");
@@ -335,17 +337,18 @@ public final class RefusedTest {
 
     private static void books() {
         sentence(33, "BAD: office, sort, n above 20; SIZE.");
-        refused(RICH, "book(0, 0, -1) = SIZE", "book(0, 1, MIN) = SIZE", "book(1, 0, -1) = SIZE", "book(0, 0, 21) = BAD",
-            "book(0, 1, MAX) = BAD", "book(8, 0, -1) = BAD", "book(-1, 1, -1) = BAD", "book(0, 2, -1) = BAD",
-            "book(0, -2, -1) = BAD", "book(8, -1, 0) = BAD", "book(-1, -1, 0) = BAD", "book(0, 2, 3) = BAD",
-            "book(0, NONE, 3) = BAD", "book(NONE, 0, 3) = BAD", "book(0, 0, NONE) = SIZE");
+        refused(RICH, "book(0, 0, -1) = SIZE", "book(0, 1, MIN) = SIZE", "book(1, 0, -1) = SIZE",
+            "book(0, 0, 21) = BAD", "book(0, 1, MAX) = BAD", "book(8, 0, -1) = BAD", "book(-1, 1, -1) = BAD",
+            "book(0, 2, -1) = BAD", "book(0, -2, -1) = BAD", "book(8, -1, 0) = BAD", "book(-1, -1, 0) = BAD",
+            "book(0, 2, 3) = BAD", "book(0, NONE, 3) = BAD", "book(NONE, 0, 3) = BAD", "book(0, 0, NONE) = SIZE");
         sentence(34, "BAD: office; NOTHING; INDEX; KIND: NONE in a row of ints; BAD: v of floats.");
         refused(EMPTY, "note(0, 0, 0) = NOTHING", "note(0, -1, NONE) = NOTHING", "note(7, 99, 100001) = NOTHING",
             "note(8, 0, 0) = BAD", "note(-1, 0, 0) = BAD");
         refused(RICH, "note(8, 99, NONE) = BAD", "note(0, 3, 1) = INDEX", "note(0, -1, NONE) = INDEX",
-            "note(0, 3, NONE) = INDEX", "note(1, 4, 100001) = INDEX", "note(1, -1, NONE) = INDEX", "note(2, 0, 1) = INDEX",
-            "note(0, 0, NONE) = KIND", "note(0, 2, NONE) = KIND", "note(1, 0, 100001) = BAD", "note(1, 3, -100001) = BAD",
-            "note(1, 0, MAX) = BAD", "note(1, 0, MIN) = BAD", "note(1, 0, BAD) = BAD", "note(3, 0, 1) = NOTHING");
+            "note(0, 3, NONE) = INDEX", "note(1, 4, 100001) = INDEX", "note(1, -1, NONE) = INDEX",
+            "note(2, 0, 1) = INDEX", "note(0, 0, NONE) = KIND", "note(0, 2, NONE) = KIND", "note(1, 0, 100001) = BAD",
+            "note(1, 3, -100001) = BAD", "note(1, 0, MAX) = BAD", "note(1, 0, MIN) = BAD", "note(1, 0, BAD) = BAD",
+            "note(3, 0, 1) = NOTHING");
         sentence(35, "BAD: office; NOTHING; INDEX; KIND: NO NUMBER from the first YEAR on.");
         refused(EMPTY, "looks(0, 0) = NOTHING", "looks(7, -1) = NOTHING", "looks(8, 0) = BAD", "looks(-1, -1) = BAD");
         refused(RICH, "looks(0, 3) = INDEX", "looks(0, -1) = INDEX", "looks(2, 0) = INDEX", "looks(1, 4) = INDEX",
@@ -381,13 +384,13 @@ public final class RefusedTest {
         refused(FULL, "interpreter() = FULL");
         sentence(41, "BAD: also if they are one.");
         refused(EMPTY, "speaks(0, 1, 2) = BAD");
-        refused(RICH, "speaks(0, 3, 3) = BAD", "speaks(0, 0, 0) = BAD", "speaks(2, 1, 2) = BAD", "speaks(0, 7, 0) = BAD",
-            "speaks(0, 0, 7) = BAD", "speaks(0, NONE, 1) = BAD", "speaks(0, 1, NONE) = BAD");
+        refused(RICH, "speaks(0, 3, 3) = BAD", "speaks(0, 0, 0) = BAD", "speaks(2, 1, 2) = BAD",
+            "speaks(0, 7, 0) = BAD", "speaks(0, 0, 7) = BAD", "speaks(0, NONE, 1) = BAD", "speaks(0, 1, NONE) = BAD");
         refused(FULL, "speaks(6, 0, 1) = BAD", "speaks(5, 1, 1) = BAD");
         sentence(42, "BAD.");
-        refused(RICH, "speech(0, 3, 3) = BAD", "speech(0, 7, 3) = BAD", "speech(0, 3, 7) = BAD", "speech(8, 0, 1) = BAD",
-            "speech(-1, 0, 1) = BAD", "speech(8, NONE, 1) = BAD", "speech(8, NONE, NONE) = BAD", "speech(0, BAD, 1) = BAD",
-            "speech(-1, 1, NONE) = BAD");
+        refused(RICH, "speech(0, 3, 3) = BAD", "speech(0, 7, 3) = BAD", "speech(0, 3, 7) = BAD",
+            "speech(8, 0, 1) = BAD", "speech(-1, 0, 1) = BAD", "speech(8, NONE, 1) = BAD",
+            "speech(8, NONE, NONE) = BAD", "speech(0, BAD, 1) = BAD", "speech(-1, 1, NONE) = BAD");
         sentence(43, "BAD.");
         refused(RICH, "heard(0) = BAD", "heard(9) = BAD");
         sentence(44, "BAD: also an HOUR not below n.");
@@ -395,8 +398,8 @@ public final class RefusedTest {
             "shift(3, -1) = BAD", "shift(0, 0) = BAD", "shift(0, -1) = BAD", "shift(9, 0) = BAD", "shift(9, 8) = BAD");
         sentence(45, "BAD: also AGAINST with bits above 255; FULL.");
         refused(RICH, "offer(1, 1, 1, 256) = BAD", "offer(1, 1, 1, 257) = BAD", "offer(1, 1, 1, -1) = BAD",
-            "offer(0, 1, 1, 0) = BAD", "offer(1, 0, 1, 0) = BAD", "offer(1, 1, -1, 0) = BAD", "offer(10, 1, 1, 0) = BAD",
-            "offer(1, 100, 1, 0) = BAD", "offer(1, 1, 1000, 0) = BAD");
+            "offer(0, 1, 1, 0) = BAD", "offer(1, 0, 1, 0) = BAD", "offer(1, 1, -1, 0) = BAD",
+            "offer(10, 1, 1, 0) = BAD", "offer(1, 100, 1, 0) = BAD", "offer(1, 1, 1000, 0) = BAD");
         refused(FULL, "offer(1, 1, 1, 0) = FULL", "offer(9, 99, 999, 255) = FULL", "offer(1, 1, 1, 256) = BAD",
             "offer(0, 1, 1, 0) = BAD", "offer(1, 0, 1, 0) = BAD", "offer(1, 1, 1000, 0) = BAD");
         sentence(46, "BAD; NONE.");

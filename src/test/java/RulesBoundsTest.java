@@ -95,9 +95,9 @@ public final class RulesBoundsTest {
         for (int i = 1; i <= 8; i++) {
             DUE.is("feed, the " + i + ".", x.feed(0x20202020, 0x20202020, 0x20202020), 12 * i);
         }
-        due(x, "feed(0, 0, 0) = FULL", "count(15) = 96", "trim(96) = 96", "trim(97) = BAD", "trim(85) = 85", "feed(0, 0, 0) = FULL",
-            "count(15) = 85", "trim(84) = 84", "feed(0, 0, 0) = 96", "trim(12) = 12", "trim(13) = BAD", "trim(-1) = BAD",
-            "trim(0) = 0", "count(15) = 0");
+        due(x, "feed(0, 0, 0) = FULL", "count(15) = 96", "trim(96) = 96", "trim(97) = BAD", "trim(85) = 85",
+            "feed(0, 0, 0) = FULL", "count(15) = 85", "trim(84) = 84", "feed(0, 0, 0) = 96", "trim(12) = 12",
+            "trim(13) = BAD", "trim(-1) = BAD", "trim(0) = 0", "count(15) = 0");
         DUE.sentence("Promise 25", "Twelve bytes come to THE TAPE, the highest of each number first");
         // "pass", " y>n", "&!k " and "pass", " y>n", "&!k\377": a byte above 127 is a sign by itself.
         due(x, "feed(1885434739, 544816750, 639724320) = 12", "text(0) = 0", "of(0, 2) = 3",
@@ -107,8 +107,8 @@ public final class RulesBoundsTest {
     private static void tapeIsUsedUp() {
         sentence("an act that reads it uses it up, whatever it answers");
         BudgetHouse x = new BudgetHouse();
-        for (String call : new String[] {"'may 1' from 0", "'may 1' from 166", "'may 1' from 167", "'may 1' from -1", "'may' from 0",
-            "'' from 0", "'1' from 0", "'may 1 1' from 5"}) {
+        for (String call : new String[] {"'may 1' from 0", "'may 1' from 166", "'may 1' from 167", "'may 1' from -1",
+            "'may' from 0", "'' from 0", "'1' from 0", "'may 1 1' from 5"}) {
             Calls.ask(x, call);
             due(x, "count(15) = 0", "text(0) = -100", "count(15) = 0");
         }
@@ -145,7 +145,8 @@ public final class RulesBoundsTest {
 
     private static void numbers() {
         sentence("NUMBER (1 to 4 digits)");
-        for (String n : new String[] {"0", "9", "00", "10", "99", "000", "100", "999", "0000", "0001", "1000", "9999"}) {
+        for (String n : new String[] {"0", "9", "00", "10", "99", "000", "100", "999", "0000", "0001", "1000",
+            "9999"}) {
             good("may " + n);
             BudgetHouse x = new BudgetHouse();
             x.paper(1, 0, 5);
@@ -184,7 +185,8 @@ public final class RulesBoundsTest {
 
     /** Each byte where a PART is due, where a sign is due, and ahead of all. */
     private static void bytes() {
-        sentence("A word is a row of letters a .. z, or of digits, as long as it goes; any other byte is a sign by itself");
+        sentence("A word is a row of letters a .. z, or of digits, as long as it goes; any other byte is a sign by "
+            + "itself");
         for (int b = 0; b < 256; b++) {
             char c = (char) b;
             BudgetHouse x = new BudgetHouse();
@@ -203,8 +205,8 @@ public final class RulesBoundsTest {
     }
 
     private static void blanks() {
-        sentence("Between words and signs, and at the ends, there may be blanks (byte 32); a word right behind another one needs "
-            + "one");
+        sentence("Between words and signs, and at the ends, there may be blanks (byte 32); a word right behind "
+            + "another one needs one");
         good("may 1");
         good("  may   ( 1  +  !  h  )  *  2   ");
         good("may(1+!h)*2");
@@ -238,7 +240,8 @@ public final class RulesBoundsTest {
             for (int i = 0; i < KEYS[key].length(); i++) {
                 fault(KEYS[key].substring(0, i) + " 1", i == 0 ? 1 : 0);
                 fault(KEYS[key].substring(0, i) + "z" + KEYS[key].substring(i + 1) + " 1", 0);
-                fault(KEYS[key].substring(0, i) + Character.toUpperCase(KEYS[key].charAt(i)) + KEYS[key].substring(i + 1) + " 1", 0);
+                fault(KEYS[key].substring(0,
+                    i) + Character.toUpperCase(KEYS[key].charAt(i)) + KEYS[key].substring(i + 1) + " 1", 0);
             }
             fault(KEYS[key] + "s 1", 0);
             fault(KEYS[key] + KEYS[key] + " 1", 0);
@@ -251,9 +254,9 @@ public final class RulesBoundsTest {
 
     private static void ends() {
         sentence("the end (the place behind the last byte), if it comes too soon");
-        for (String text : new String[] {"", " ", "   ", "may", "may ", "may   ", "may !", "may (", "may ( ", "may (1", "may (1 ", "may 1+",
-            "may 1+ ", "may 1-", "may 1*", "may 1/", "may 1<", "may 1=", "may 1>", "may 1&", "may 1|", "may ((1)", "may !(", "may (1+",
-            "may !!!!!!!!", "may ((((((((", "may ((((((((1", "bind t<"}) {
+        for (String text : new String[] {"", " ", "   ", "may", "may ", "may   ", "may !", "may (", "may ( ", "may (1",
+            "may (1 ", "may 1+", "may 1+ ", "may 1-", "may 1*", "may 1/", "may 1<", "may 1=", "may 1>", "may 1&",
+            "may 1|", "may ((1)", "may !(", "may (1+", "may !!!!!!!!", "may ((((((((", "may ((((((((1", "bind t<"}) {
             fault(text, text.length());
         }
         sentence("the first byte of the first word or sign with which no TEXT goes on");
@@ -306,10 +309,11 @@ public final class RulesBoundsTest {
     }
 
     private static void ninths() {
-        sentence("the ninth ( that would be open within others, the ninth ! likewise (through ( ), too), each by itself");
+        sentence("the ninth ( that would be open within others, the ninth ! likewise (through ( ), too), each by "
+            + "itself");
         for (int n = 1; n < 12; n++) {
-            String[] deep = {times("(", n) + "1" + times(")", n), times("!", n) + "1", times("!(", n) + "1" + times(")", n),
-                times("(!", n) + "1" + times(")", n)};
+            String[] deep = {times("(", n) + "1" + times(")", n), times("!", n) + "1", times("!(", n) + "1" + times(")",
+                n), times("(!", n) + "1" + times(")", n)};
             for (int i = 0; i < 4; i++) {
                 if (n < 9) {
                     good("may " + deep[i]);
@@ -346,7 +350,8 @@ public final class RulesBoundsTest {
 
     private static void operands() {
         DUE.sentence("Promise 28", "2 how many NUMBERS and NAMES it has");
-        String[] texts = {"may 1", "may h", "may (((1)))", "may !!!h", "may 1+1", "may h+h*h-h/h", "may 1<2&3>4|5=6", "may 1111+0000"};
+        String[] texts = {"may 1", "may h", "may (((1)))", "may !!!h", "may 1+1", "may h+h*h-h/h", "may 1<2&3>4|5=6",
+            "may 1111+0000"};
         int[] want = {1, 1, 1, 1, 2, 5, 6, 2};
         BudgetHouse x = new BudgetHouse();
         for (int t = 0; t < texts.length; t++) {
@@ -358,8 +363,9 @@ public final class RulesBoundsTest {
         Tapes.text(y, "bind t" + times("*s", 45), 166);
         due(y, "of(0, 2) = 46", "of(0, 1) = 166", "of(0, 0) = 3");
         // A text with a fault, or one that is refused, leaves nothing to the next one.
-        due(y, "'may ((((1+1' from 0 = -111", "'may !!!!!!!!' from 0 = -112", "'may 1+2*3<' from 0 = -110", "'may 7' from 0 = 1",
-            "of(1, 2) = 1", "'may ((((((((1))))))))' from 0 = 2", "'may !!!!!!!!1' from 0 = 3", "of(3, 2) = 1");
+        due(y, "'may ((((1+1' from 0 = -111", "'may !!!!!!!!' from 0 = -112", "'may 1+2*3<' from 0 = -110",
+            "'may 7' from 0 = 1", "of(1, 2) = 1", "'may ((((((((1))))))))' from 0 = 2", "'may !!!!!!!!1' from 0 = 3",
+            "of(3, 2) = 1");
     }
 
     private static void worth(String e, boolean want) {
@@ -461,7 +467,8 @@ public final class RulesBoundsTest {
 
     private static void intsOfMay() {
         sentence("Ints wrap (may: what is not 0 lets it)");
-        String[] es = {LEAST, GREATEST, "0-1", "2", "8192*8192*64", "0", GREATEST + "+1-" + LEAST, "h", "c", "k-1", "k", "1-k"};
+        String[] es = {LEAST, GREATEST, "0-1", "2", "8192*8192*64", "0", GREATEST + "+1-" + LEAST, "h", "c", "k-1", "k",
+            "1-k"};
         boolean[] want = {true, true, true, true, false, false, false, false, false, false, true, false};
         for (int i = 0; i < es.length; i++) {
             BudgetHouse x = new BudgetHouse();
@@ -471,10 +478,16 @@ public final class RulesBoundsTest {
         }
         sentence("of may k KIND, h the HOUR, c THE CLOCK's rest by 60");
         BudgetHouse x = new BudgetHouse();
-        due(x, "paper(1, 0, 5) = 0", "paper(2, 0, 5) = 1", "hung(0, 5, 1, 0) = 2", "'may k = 3' from 0 = 0", "put(0) = NO", "put(1) = NO",
-            "put(2) = 0", "'may k = 2' from 0 = 1", "put(0) = NO", "put(1) = 0", "'may h = 1 & c = 59' from 0 = 2", "run(118) = 118",
-            "put(0) = NO", "run(1) = 119", "paper(1, 0, 5) = 3", "put(3) = 0", "run(1) = 120", "put(0) = NO",
-            "'may h = 2 & c = 0' from 0 = 3", "put(0) = 0");
+        due(x, "paper(1, 0, 5) = 0", "paper(2, 0, 5) = 1", "hung(0, 5, 1, 0) = 2", "'may k = 3' from 0 = 0",
+            "put(0) = NO", "put(1) = NO", "put(2) = 0", "'may k = 2' from 0 = 1", "put(0) = NO", "put(1) = 0",
+            "'may h = 1 & c = 59' from 0 = 2", "run(118) = 118", "put(0) = NO", "run(1) = 119", "paper(1, 0, 5) = 3",
+            "put(3) = 0", "run(1) = 120", "put(0) = NO", "'may h = 2 & c = 0' from 0 = 3", "put(0) = 0");
+        sentence("h the HOUR, c THE CLOCK's rest by 60 (not the MINUTE's)");
+        BudgetHouse y = new BudgetHouse();
+        due(y, "paper(1, 0, 5) = 0", "paper(1, 0, 5) = 1", "paper(1, 0, 5) = 2", "'may h = 0 & c = 59' from 0 = 0",
+            "run(59) = 59", "clock(1) = 0", "run(7) = 66", "put(0) = 0", "clock(0) = 1", "run(1) = 67", "put(1) = NO",
+            "'may h = 1 & c = 0' from 0 = 1", "put(1) = 0", "run(53) = 120", "put(2) = NO",
+            "'may h = 1 & c = 53' from 0 = 2", "put(2) = 0");
     }
 
     private static void rowIs(BudgetHouse x, String text, int... want) {
@@ -488,8 +501,8 @@ public final class RulesBoundsTest {
     private static void intsOfOrder() {
         sentence("Ints wrap (order: the greater first, from the least Int to the greatest)");
         BudgetHouse x = new BudgetHouse();
-        due(x, "paper(1, 0, 5) = 0", "paper(2, 0, 1) = 1", "paper(2, 0, 2) = 2", "paper(2, 0, 3) = 3", "paper(2, 0, -9999) = 4",
-            "paper(2, 0, 9999) = 5");
+        due(x, "paper(1, 0, 5) = 0", "paper(2, 0, 1) = 1", "paper(2, 0, 2) = 2", "paper(2, 0, 3) = 3",
+            "paper(2, 0, -9999) = 4", "paper(2, 0, 9999) = 5");
         rowIs(x, "order v", 5, 3, 2, 1, 4);
         rowIs(x, "order 0-v", 4, 1, 2, 3, 5);
         rowIs(x, "order " + LEAST + "-(v=2)", 2, 1, 3, 4, 5);
@@ -499,8 +512,8 @@ public final class RulesBoundsTest {
         rowIs(x, "order v/0", 1, 2, 3, 4, 5);
         sentence("of order k KIND, v MORE, o the LINE's OFFICE, l its LAND");
         BudgetHouse y = new BudgetHouse();
-        due(y, "paper(1, 3, 5) = 0", "paper(1, 73, 5) = 1", "paper(1, 70, 5) = 2", "paper(1, 9, 5) = BAD", "paper(2, 0, 5) = 3",
-            "paper(2, 1, 5) = 4", "paper(2, 2, 5) = 5", "hung(2, 5, 3, 0) = 6");
+        due(y, "paper(1, 3, 5) = 0", "paper(1, 73, 5) = 1", "paper(1, 70, 5) = 2", "paper(1, 9, 5) = BAD",
+            "paper(2, 0, 5) = 3", "paper(2, 1, 5) = 4", "paper(2, 2, 5) = 5", "hung(2, 5, 3, 0) = 6");
         rowIs(y, "order o", 4, 5, 6, 3);
         rowIs(y, "order l", 3, 4, 5, 6);
         rowIs(y, "order 0-l", 5, 6, 3, 4);
@@ -514,9 +527,9 @@ public final class RulesBoundsTest {
 
     private static void intsOfBind() {
         sentence("Ints wrap (bind: the greatest E, from the least Int to the greatest)");
-        String[] es = {"t", "s", "0-s", "t=0", "t=1", "t=2", "t=6", "t=6&s>0", "t=6&s=9999", LEAST + "+(t=2)", LEAST + "-(t=2)",
-            GREATEST + "+(t<2)", GREATEST + "-(t=0)", "(t=0)*" + LEAST + "+(t=1)*" + GREATEST, "0", "1/0", "s=52", "t*s*9999", "0-t*t",
-            "t>6", "t<6"};
+        String[] es = {"t", "s", "0-s", "t=0", "t=1", "t=2", "t=6", "t=6&s>0", "t=6&s=9999", LEAST + "+(t=2)",
+            LEAST + "-(t=2)", GREATEST + "+(t<2)", GREATEST + "-(t=0)", "(t=0)*" + LEAST + "+(t=1)*" + GREATEST, "0",
+            "1/0", "s=52", "t*s*9999", "0-t*t", "t>6", "t<6"};
         int[] want = {0, 9999, 0, 50, 51, 52, 0, 9999, 9999, 52, 52, 52, 51, 51, 50, 50, 52, 9999, 50, 50, 50};
         for (int i = 0; i < es.length; i++) {
             BudgetHouse y = new BudgetHouse();
@@ -530,40 +543,45 @@ public final class RulesBoundsTest {
     private static void hours() {
         sentence("each in force from an HOUR on");
         BudgetHouse x = new BudgetHouse();
-        due(x, "'pass 1' from 0 = 0", "'pass 1' from 1 = 1", "'pass 1' from 2 = 2", "'pass 1' from 166 = 3", "why(0) = 0",
-            "run(59) = 59", "why(0) = 0", "run(1) = 60", "why(0) = 1", "run(59) = 119", "why(0) = 1", "run(1) = 120", "why(0) = 2",
-            "clock(1) = 0", "run(240) = 360", "why(0) = 2", "clock(0) = 1", "run(240) = 600", "why(0) = 2", "'pass 1' from 6 = 4",
-            "why(0) = 4", "'pass 1' from 7 = 5", "why(0) = 4", "'pass 1' from 5 = 6", "why(0) = 4");
+        due(x, "'pass 1' from 0 = 0", "'pass 1' from 1 = 1", "'pass 1' from 2 = 2", "'pass 1' from 166 = 3",
+            "why(0) = 0", "run(59) = 59", "why(0) = 0", "run(1) = 60", "why(0) = 1", "run(59) = 119", "why(0) = 1",
+            "run(1) = 120", "why(0) = 2", "clock(1) = 0", "run(240) = 360", "why(0) = 2", "clock(0) = 1",
+            "run(240) = 600", "why(0) = 2", "'pass 1' from 6 = 4", "why(0) = 4", "'pass 1' from 7 = 5", "why(0) = 4",
+            "'pass 1' from 5 = 6", "why(0) = 4");
         DUE.sentence("Promise 27", "THE TAPE is a TEXT from an HOUR (0 .. 166) on");
-        due(new BudgetHouse(), "'may 1' from 0 = 0", "'may 1' from 166 = 1", "'may 1' from 167 = BAD", "'may 1' from -1 = BAD",
-            "of(0, 1) = 0", "of(1, 1) = 166", "count(9) = 2");
+        due(new BudgetHouse(), "'may 1' from 0 = 0", "'may 1' from 166 = 1", "'may 1' from 167 = BAD",
+            "'may 1' from -1 = BAD", "of(0, 1) = 0", "of(1, 1) = 166", "count(9) = 2");
     }
 
     private static void latestHour() {
-        sentence("Of a KEY that TEXT counts in an HOUR which is in force, with the latest HOUR, of several the greatest number");
+        sentence("Of a KEY that TEXT counts in an HOUR which is in force, with the latest HOUR, of several the "
+            + "greatest number");
         BudgetHouse x = new BudgetHouse();
-        due(x, "run(120) = 120", "'pass 1' from 2 = 0", "'pass 0' from 0 = 1", "why(0) = 0", "'pass 0' from 1 = 2", "why(0) = 0",
-            "'pass 0' from 2 = 3", "why(0) = 3", "'may 1' from 2 = 4", "why(0) = 3", "'pass 0' from 3 = 5", "why(0) = 3", "why(1) = 4",
-            "why(2) = NONE", "run(60) = 180", "why(0) = 5", "why(1) = 4");
+        due(x, "run(120) = 120", "'pass 1' from 2 = 0", "'pass 0' from 0 = 1", "why(0) = 0", "'pass 0' from 1 = 2",
+            "why(0) = 0", "'pass 0' from 2 = 3", "why(0) = 3", "'may 1' from 2 = 4", "why(0) = 3",
+            "'pass 0' from 3 = 5", "why(0) = 3", "why(1) = 4", "why(2) = NONE", "run(60) = 180", "why(0) = 5",
+            "why(1) = 4");
     }
 
     private static void withoutTexts() {
         sentence("Without a TEXT: pass: y > n; may: 1; order: 0; bind: 0");
         BudgetHouse x = new BudgetHouse();
-        due(x, "'pass 1' from 1 = 0", "'may 0' from 1 = 1", "'order v' from 1 = 2", "'bind s' from 1 = 3", "member(0, 1) = 0",
-            "paper(1, 0, 5) = 0", "paper(5, 0, 10009) = 1", "paper(2, 0, 1) = 2", "paper(2, 0, 2) = 3", "paper(2, 0, 3) = 4",
-            "run(59) = 59", "would(0, 3) = 0", "row(0) = 2", "row(1) = 3", "line(0, 0) = 5", "put(4) = 0", "run(1) = 60",
-            "would(0, 3) = 1", "row(0) = 3", "row(1) = 2", "line(0, 0) = 9", "put(3) = NO", "why(0) = 0", "why(3) = 3");
+        due(x, "'pass 1' from 1 = 0", "'may 0' from 1 = 1", "'order v' from 1 = 2", "'bind s' from 1 = 3",
+            "member(0, 1) = 0", "paper(1, 0, 5) = 0", "paper(5, 0, 10009) = 1", "paper(2, 0, 1) = 2",
+            "paper(2, 0, 2) = 3", "paper(2, 0, 3) = 4", "run(59) = 59", "would(0, 3) = 0", "row(0) = 2", "row(1) = 3",
+            "line(0, 0) = 5", "put(4) = 0", "run(1) = 60", "would(0, 3) = 1", "row(0) = 3", "row(1) = 2",
+            "line(0, 0) = 9", "put(3) = NO", "why(0) = 0", "why(3) = 3");
     }
 
     private static void row() {
-        sentence("THE ROW: all CHANGES (HUNG ones, too) that are OPEN, by E of order, the greater first, of like ones the lesser "
-            + "number");
+        sentence("THE ROW: all CHANGES (HUNG ones, too) that are OPEN, by E of order, the greater first, of like "
+            + "ones the lesser number");
         BudgetHouse x = new BudgetHouse();
-        due(x, "row(0) = NONE", "member(0, 1) = 0", "paper(1, 0, 5) = 0", "row(0) = NONE", "paper(2, 0, 5) = 1", "row(0) = 1",
-            "row(1) = NONE", "paper(4, 0, 5) = 2", "hung(0, 5, 1, 1) = 3", "paper(2, 0, 5) = 4", "row(-1) = BAD", "row(0) = 1",
-            "row(1) = 3", "row(2) = 4", "row(3) = NONE", "put(4) = 0", "row(2) = NONE", "put(1) = 0", "told(3, 3) = 3", "row(0) = NONE",
-            "paper(2, 0, 5) = 5", "put(0) = 0", "row(0) = NONE", "paper(2, 0, 5) = 6", "row(0) = 6");
+        due(x, "row(0) = NONE", "member(0, 1) = 0", "paper(1, 0, 5) = 0", "row(0) = NONE", "paper(2, 0, 5) = 1",
+            "row(0) = 1", "row(1) = NONE", "paper(4, 0, 5) = 2", "hung(0, 5, 1, 1) = 3", "paper(2, 0, 5) = 4",
+            "row(-1) = BAD", "row(0) = 1", "row(1) = 3", "row(2) = 4", "row(3) = NONE", "put(4) = 0", "row(2) = NONE",
+            "put(1) = 0", "told(3, 3) = 3", "row(0) = NONE", "paper(2, 0, 5) = 5", "put(0) = 0", "row(0) = NONE",
+            "paper(2, 0, 5) = 6", "row(0) = 6");
     }
 
     private static void rowOfForty() {
@@ -580,17 +598,19 @@ public final class RulesBoundsTest {
         for (int i = 0; i < 39; i++) {
             DUE.is("row(" + i + ") by v", x.row(i), 39 - i);
         }
-        due(x, "row(39) = NONE", "'order 0-(v-20)*(v-20)' from 0 = 1", "row(0) = 20", "row(1) = 19", "row(2) = 21", "row(37) = 1",
-            "row(38) = 39", "row(39) = NONE", "first() = 20");
+        due(x, "row(39) = NONE", "'order 0-(v-20)*(v-20)' from 0 = 1", "row(0) = 20", "row(1) = 19", "row(2) = 21",
+            "row(37) = 1", "row(38) = 39", "row(39) = NONE", "first() = 20");
     }
 
     private static void bindingSum() {
-        sentence("BINDING SUM of a LINE: .. the one with the greatest E of bind; of several the LINE's own, then the least number");
+        sentence("BINDING SUM of a LINE: .. the one with the greatest E of bind; of several the LINE's own, then "
+            + "the least number");
         BudgetHouse x = new BudgetHouse();
-        due(x, "paper(1, 0, 50) = 0", "paper(1, 0, 60) = 1", "line(0, 0) = 50", "line(0, 1) = 0", "'bind t > 0' from 0 = 0",
-            "line(0, 0) = 50", "paper(5, 0, 1) = 2", "line(0, 0) = 50", "paper(5, 0, 20002) = 3", "paper(5, 0, 10003) = 4",
-            "paper(5, 1, 10004) = 5", "line(0, 0) = 2", "line(1, 0) = 4", "'bind t = 0' from 0 = 1", "line(0, 0) = 50",
-            "'bind t = 0 & s < 50' from 0 = 2", "line(0, 0) = 1", "'bind t = 0 | s = 2' from 0 = 3", "line(0, 0) = 50");
+        due(x, "paper(1, 0, 50) = 0", "paper(1, 0, 60) = 1", "line(0, 0) = 50", "line(0, 1) = 0",
+            "'bind t > 0' from 0 = 0", "line(0, 0) = 50", "paper(5, 0, 1) = 2", "line(0, 0) = 50",
+            "paper(5, 0, 20002) = 3", "paper(5, 0, 10003) = 4", "paper(5, 1, 10004) = 5", "line(0, 0) = 2",
+            "line(1, 0) = 4", "'bind t = 0' from 0 = 1", "line(0, 0) = 50", "'bind t = 0 & s < 50' from 0 = 2",
+            "line(0, 0) = 1", "'bind t = 0 | s = 2' from 0 = 3", "line(0, 0) = 50");
         sentence("UNLIKE: the TONGUES of a LINE (OPEN ones) whose SUM is not the LINE's");
         due(x, "line(0, 1) = 3", "line(1, 1) = 1", "paper(5, 0, 50) = 6", "paper(5, 0, 60050) = 7", "line(0, 1) = 3",
             "paper(5, 0, 49) = 8", "paper(5, 0, 51) = 9", "line(0, 1) = 5");

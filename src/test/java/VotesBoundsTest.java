@@ -68,7 +68,8 @@ public final class VotesBoundsTest {
             "count(10) = 2", "run(1) = 105", "told(0, 6) = 15", "run(1) = 106", "told(0, 6) = 31", "count(10) = 0");
         due(x, "print(0, 5, 1) = 1", "print(0, 6, 99) = 2", "run(240) = 346", "told(0, 6) = 127", "count(10) = 0");
         DUE.sentence("Promise 9", "SHEETS that are due come: by MINUTE, also while THE CLOCK is STOPPED");
-        due(new BudgetHouse(), "paper(0, 0, 0) = 0", "clock(1) = 0", "print(0, 0, 1) = 1", "run(1) = 1", "told(0, 6) = 1");
+        due(new BudgetHouse(), "paper(0, 0, 0) = 0", "clock(1) = 0", "print(0, 0, 1) = 1", "run(1) = 1",
+            "told(0, 6) = 1");
     }
 
     private static void thirtySheets() {
@@ -80,8 +81,9 @@ public final class VotesBoundsTest {
         }
         due(x, "print(0, 6, 1) = FULL", "print(0, 6, 0) = FULL", "told(0, 6) = 0", "count(10) = 30", "run(1) = 1",
             "count(10) = 29", "told(1, 6) = 66", "print(0, 6, 0) = 29", "told(0, 6) = 64", "print(0, 5, 99) = 30",
-            "print(0, 0, 0) = FULL", "run(28) = 29", "count(10) = 2", "told(0, 6) = 95", "told(1, 6) = 95", "run(1) = 30",
-            "count(10) = 1", "run(69) = 99", "count(10) = 1", "told(0, 6) = 95", "run(1) = 100", "told(0, 6) = 127");
+            "print(0, 0, 0) = FULL", "run(28) = 29", "count(10) = 2", "told(0, 6) = 95", "told(1, 6) = 95",
+            "run(1) = 30", "count(10) = 1", "run(69) = 99", "count(10) = 1", "told(0, 6) = 95", "run(1) = 100",
+            "told(0, 6) = 127");
     }
 
     private static void came() {
@@ -95,9 +97,9 @@ public final class VotesBoundsTest {
         }
         due(x, "print(1, 3, 0) = 0", "told(1, 6) = 127", "told(0, 6) = 0");
         sentence("A MEMBER has READ a PAPER, if it CAME in a TONGUE that the MEMBER reads");
-        due(x, "member(0, 0) = 0", "member(0, 64) = 1", "member(0, 127) = 2", "read(0, 1) = 0", "read(1, 1) = 1", "read(1, 0) = 0",
-            "read(2, 0) = 0", "print(0, 6, 5) = 1", "read(1, 0) = 0", "run(4) = 4", "read(1, 0) = 0", "run(1) = 5",
-            "read(1, 0) = 1", "read(2, 0) = 1", "read(0, 0) = 0");
+        due(x, "member(0, 0) = 0", "member(0, 64) = 1", "member(0, 127) = 2", "read(0, 1) = 0", "read(1, 1) = 1",
+            "read(1, 0) = 0", "read(2, 0) = 0", "print(0, 6, 5) = 1", "read(1, 0) = 0", "run(4) = 4", "read(1, 0) = 0",
+            "run(1) = 5", "read(1, 0) = 1", "read(2, 0) = 1", "read(0, 0) = 0");
     }
 
     private static void voices() {
@@ -138,26 +140,30 @@ public final class VotesBoundsTest {
         due(y, "is(0, 5) = 0", "member(1, 1) = 1", "member(2, 1) = 2", "member(3, 2) = 3", "print(0, 0, 0) = 0",
             "stance(0, 0, 1) = 0", "stance(1, 0, -1) = 0", "stance(3, 0, 5) = 0", "would(0, 0) = 1", "would(0, 1) = 1",
             "is(0, 5) = 0", "put(0) = 0", "is(0, 5) = 1", "is(1, 5) = 1", "is(2, 5) = 0", "is(3, 5) = 0", "put(0) = NO",
-            "is(0, 5) = 1", "paper(6, 1, 1) = 2", "put(1) = 1", "is(0, 5) = 2", "is(1, 5) = 1", "put(1) = NO", "is(0, 5) = 2");
+            "is(0, 5) = 1", "paper(6, 1, 1) = 2", "put(1) = 1", "is(0, 5) = 2", "is(1, 5) = 1", "put(1) = NO",
+            "is(0, 5) = 2");
     }
 
     private static void emptyHouse() {
         sentence("A VOTE .. each MEMBER who is IN (nobody is)");
         BudgetHouse x = new BudgetHouse();
-        due(x, "paper(1, 0, 5) = 0", "would(0, 0) = 0", "would(0, 1) = 0", "would(0, 2) = 0", "would(0, 3) = 0", "put(0) = 0",
-            "told(0, 9) = 0");
-        due(new BudgetHouse(), "paper(1, 0, 5) = 0", "'pass 1' from 0 = 0", "would(0, 3) = 1", "put(0) = 1", "told(0, 7) = 0");
+        due(x, "paper(1, 0, 5) = 0", "would(0, 0) = 0", "would(0, 1) = 0", "would(0, 2) = 0", "would(0, 3) = 0",
+            "put(0) = 0", "told(0, 9) = 0");
+        due(new BudgetHouse(), "paper(1, 0, 5) = 0", "'pass 1' from 0 = 0", "would(0, 3) = 1", "put(0) = 1",
+            "told(0, 7) = 0");
         DUE.sentence("Terms 3", "Without a TEXT: pass: y > n");
         BudgetHouse y = house();
-        due(y, "member(1, 1) = 1", "print(0, 0, 0) = 0", "stance(0, 0, 1) = 0", "stance(1, 0, -1) = 0", "would(0, 3) = 0",
-            "member(0, 1) = 2", "would(0, 3) = 1", "member(1, 1) = 3", "would(0, 3) = 0", "member(1, 1) = 4", "put(0) = 0");
+        due(y, "member(1, 1) = 1", "print(0, 0, 0) = 0", "stance(0, 0, 1) = 0", "stance(1, 0, -1) = 0",
+            "would(0, 3) = 0", "member(0, 1) = 2", "would(0, 3) = 1", "member(1, 1) = 3", "would(0, 3) = 0",
+            "member(1, 1) = 4", "put(0) = 0");
     }
 
     private static void heldSums() {
         sentence("A CHANGE that is PASSED: the SUM of its LINE is MORE by that, within 0 .. 9999");
-        int[][] rows = {{9998, 1, 9999}, {9998, 2, 9999}, {9999, 0, 9999}, {9999, 1, 9999}, {9999, 9999, 9999}, {0, 9999, 9999},
-            {1, 9999, 9999}, {0, 0, 0}, {0, -1, 0}, {1, -1, 0}, {1, -2, 0}, {9999, -9999, 0}, {9998, -9999, 0},
-            {9999, -9998, 1}, {0, -9999, 0}, {5000, 4999, 9999}, {5000, 5000, 9999}, {5000, -5000, 0}, {5000, -5001, 0}};
+        int[][] rows = {{9998, 1, 9999}, {9998, 2, 9999}, {9999, 0, 9999}, {9999, 1, 9999}, {9999, 9999, 9999}, {0,
+            9999, 9999}, {1, 9999, 9999}, {0, 0, 0}, {0, -1, 0}, {1, -1, 0}, {1, -2, 0}, {9999, -9999, 0}, {9998, -9999,
+            0}, {9999, -9998, 1}, {0, -9999, 0}, {5000, 4999, 9999}, {5000, 5000, 9999}, {5000, -5000, 0}, {5000, -5001,
+            0}};
         for (int[] r : rows) {
             BudgetHouse x = new BudgetHouse();
             x.member(0, 1);
@@ -175,29 +181,33 @@ public final class VotesBoundsTest {
     }
 
     private static void linesDecided() {
-        sentence("A LINE that is LOST: each OPEN CHANGE to it FALLS, its RIDERS that are OPEN, too; one that is PASSED: its "
-            + "RIDERS that are OPEN are PASSED");
+        sentence("A LINE that is LOST: each OPEN CHANGE to it FALLS, its RIDERS that are OPEN, too; one that is "
+            + "PASSED: its RIDERS that are OPEN are PASSED");
         BudgetHouse x = house();
-        due(x, "paper(2, 0, 5) = 2", "paper(2, 0, 6) = 3", "paper(2, 0, 7) = 4", "paper(4, 0, 7) = 5", "paper(2, 1, 7) = 6",
-            "paper(4, 1, 7) = 7", "paper(5, 0, 7) = 8", "paper(7, 0, 0) = 9", "hung(0, 7, 6, 0) = 10", "hung(1, 7, 4, 0) = 11",
-            "hung(0, 7, 2, 0) = 12");
+        due(x, "paper(2, 0, 5) = 2", "paper(2, 0, 6) = 3", "paper(2, 0, 7) = 4", "paper(4, 0, 7) = 5",
+            "paper(2, 1, 7) = 6", "paper(4, 1, 7) = 7", "paper(5, 0, 7) = 8", "paper(7, 0, 0) = 9",
+            "hung(0, 7, 6, 0) = 10", "hung(1, 7, 4, 0) = 11", "hung(0, 7, 2, 0) = 12");
         pass(x, 2);
         lose(x, 3);
-        states(x, "ahead of put(0)", 0, OPEN, OPEN, PASSED, LOST, OPEN, OPEN, OPEN, OPEN, OPEN, OPEN, OPEN, OPEN, FALLEN);
+        states(x, "ahead of put(0)", 0, OPEN, OPEN, PASSED, LOST, OPEN, OPEN, OPEN, OPEN, OPEN, OPEN, OPEN, OPEN,
+            FALLEN);
         lose(x, 0);
-        states(x, "behind put(0)", 0, LOST, OPEN, PASSED, LOST, FALLEN, FALLEN, OPEN, OPEN, OPEN, OPEN, FALLEN, OPEN, FALLEN);
+        states(x, "behind put(0)", 0, LOST, OPEN, PASSED, LOST, FALLEN, FALLEN, OPEN, OPEN, OPEN, OPEN, FALLEN, OPEN,
+            FALLEN);
         pass(x, 1);
-        states(x, "behind put(1)", 0, LOST, PASSED, PASSED, LOST, FALLEN, FALLEN, OPEN, PASSED, OPEN, OPEN, FALLEN, OPEN, FALLEN);
+        states(x, "behind put(1)", 0, LOST, PASSED, PASSED, LOST, FALLEN, FALLEN, OPEN, PASSED, OPEN, OPEN, FALLEN,
+            OPEN, FALLEN);
         due(x, "put(6) = NO", "put(11) = NO", "told(8, 3) = 0", "told(9, 3) = 0");
     }
 
     /** One HUNG one of each MODE on a CHANGE in each state; then something is PUT that has nothing to do with them. */
     private static void fallsByMode() {
-        sentence("MODE: 0 it FALLS as that is PASSED (before, too), 1 it COMES with that: .. FALLS as that is LOST, FALLEN or "
-            + "VOID");
+        sentence("MODE: 0 it FALLS as that is PASSED (before, too), 1 it COMES with that: .. FALLS as that is LOST, "
+            + "FALLEN or VOID");
         BudgetHouse x = house();
-        due(x, "paper(1, 0, 50) = 2", "paper(1, 0, 50) = 3", "paper(2, 0, 1) = 4", "paper(2, 0, 1) = 5", "paper(2, 0, 1) = 6",
-            "paper(2, 1, 1) = 7", "paper(2, 2, 1) = 8", "paper(7, 2, 0) = 9", "hung(0, 1, 4, 0) = 10", "hung(0, 1, 4, 1) = 11");
+        due(x, "paper(1, 0, 50) = 2", "paper(1, 0, 50) = 3", "paper(2, 0, 1) = 4", "paper(2, 0, 1) = 5",
+            "paper(2, 0, 1) = 6", "paper(2, 1, 1) = 7", "paper(2, 2, 1) = 8", "paper(7, 2, 0) = 9",
+            "hung(0, 1, 4, 0) = 10", "hung(0, 1, 4, 1) = 11");
         pass(x, 5);
         lose(x, 6);
         lose(x, 1);
@@ -216,14 +226,15 @@ public final class VotesBoundsTest {
     }
 
     private static void chainOfForty() {
-        sentence("Then, as long as there is one, the first (least) HUNG one that is OPEN, and FALLS as told by MODE, is FALLEN");
+        sentence("Then, as long as there is one, the first (least) HUNG one that is OPEN, and FALLS as told by "
+            + "MODE, is FALLEN");
         BudgetHouse x = new BudgetHouse();
         due(x, "member(0, 1) = 0", "paper(1, 0, 50) = 0", "paper(2, 0, 1) = 1");
         for (int p = 2; p < 40; p++) {
             DUE.is("hung, the " + p + ".", x.hung(0, 1, p - 1, 1), p);
         }
-        due(x, "hung(0, 1, 39, 1) = FULL", "never(39) = 0", "falls(39) = 0", "falls(1) = 0", "put(39) = NO", "put(2) = NO",
-            "row(38) = 39", "row(39) = NONE", "line(0, 2) = 39");
+        due(x, "hung(0, 1, 39, 1) = FULL", "never(39) = 0", "falls(39) = 0", "falls(1) = 0", "put(39) = NO",
+            "put(2) = NO", "row(38) = 39", "row(39) = NONE", "line(0, 2) = 39");
         lose(x, 1);
         for (int p = 2; p < 40; p++) {
             DUE.is("told(" + p + ", 3)", x.told(p, 3), FALLEN);
@@ -257,8 +268,8 @@ public final class VotesBoundsTest {
     }
 
     private static void dealsOfForty() {
-        sentence("A DEAL for a PAPER that is no more OPEN is PASSED, if that PASSED, else LOST (DEALS that are OPEN, behind all "
-            + "that, by numbers)");
+        sentence("A DEAL for a PAPER that is no more OPEN is PASSED, if that PASSED, else LOST (DEALS that are "
+            + "OPEN, behind all that, by numbers)");
         BudgetHouse x = house();
         due(x, "paper(2, 0, 1) = 2", "hung(0, 1, 2, 0) = 3", "paper(4, 0, 1) = 4", "paper(4, 1, 1) = 5");
         for (int p = 6; p < 40; p++) {
@@ -266,7 +277,8 @@ public final class VotesBoundsTest {
         }
         pass(x, 2);
         for (int p = 6; p < 40; p++) {
-            DUE.is("told(" + p + ", 3) as a change passes", x.told(p, 3), p % 6 == 2 ? PASSED : p % 6 == 3 ? LOST : OPEN);
+            DUE.is("told(" + p + ", 3) as a change passes", x.told(p, 3),
+                p % 6 == 2 ? PASSED : p % 6 == 3 ? LOST : OPEN);
         }
         pass(x, 0);
         int[] want = {PASSED, OPEN, PASSED, LOST, PASSED, OPEN};
@@ -299,7 +311,8 @@ public final class VotesBoundsTest {
     }
 
     private static void changesOfALine() {
-        DUE.sentence("Promise 24", "1 how many UNLIKE, 2 how many CHANGES to it are OPEN, 3 RIDERS on it (in any state)");
+        DUE.sentence("Promise 24",
+            "1 how many UNLIKE, 2 how many CHANGES to it are OPEN, 3 RIDERS on it (in any state)");
         BudgetHouse x = new BudgetHouse();
         x.member(0, 1);
         x.paper(1, 0, 50);
@@ -316,12 +329,14 @@ public final class VotesBoundsTest {
         for (int p = 0; p < 38; p++) {
             last.paper(0, 0, 0);
         }
-        due(last, "paper(1, 0, 50) = 38", "paper(4, 38, 1) = 39", "line(38, 3) = 1", "line(38, 2) = 0", "line(38, 1) = 0");
+        due(last, "paper(1, 0, 50) = 38", "paper(4, 38, 1) = 39", "line(38, 3) = 1", "line(38, 2) = 0",
+            "line(38, 1) = 0");
     }
 
     private static void voidOfForty() {
-        sentence("A RULING on a LINE that is PASSED: the LINE is VOID, and all CHANGES to it that PASSED are VOID (its SUM stays), "
-            + "then HUNG ones FALL as told, and its RIDERS (in any state but VOID) are VOID; the RULING is PASSED");
+        sentence("A RULING on a LINE that is PASSED: the LINE is VOID, and all CHANGES to it that PASSED are VOID "
+            + "(its SUM stays), then HUNG ones FALL as told, and its RIDERS (in any state but VOID) are VOID; the "
+            + "RULING is PASSED");
         BudgetHouse x = new BudgetHouse();
         due(x, "member(0, 1) = 0", "paper(1, 0, 50) = 0", "paper(7, 0, 0) = 1", "paper(1, 0, 50) = 2");
         for (int p = 3; p < 40; p++) {
@@ -332,7 +347,8 @@ public final class VotesBoundsTest {
         }
         lose(x, 4);
         pass(x, 0);
-        due(x, "told(0, 2) = 52", "told(39, 3) = 1", "rule(1) = 22", "told(0, 2) = 52", "told(1, 3) = 1", "rule(1) = NO");
+        due(x, "told(0, 2) = 52", "told(39, 3) = 1", "rule(1) = 22", "told(0, 2) = 52", "told(1, 3) = 1",
+            "rule(1) = NO");
         for (int p = 3; p < 40; p++) {
             int even = p >= 36 ? VOID : p == 4 ? LOST : OPEN;
             DUE.is("told(" + p + ", 3)", x.told(p, 3), p % 2 == 1 ? VOID : even);
@@ -353,13 +369,15 @@ public final class VotesBoundsTest {
         pass(x, 0);
         due(x, "rule(5) = 1");
         BudgetHouse y = house();
-        due(y, "paper(4, 0, 1) = 2", "paper(4, 1, 1) = 3", "paper(7, 1, 0) = 4", "paper(2, 0, 5) = 5", "hung(0, 5, 5, 1) = 6",
-            "hung(0, 5, 5, 0) = 7", "paper(2, 1, 5) = 8", "hung(0, 5, 8, 1) = 9", "hung(0, 5, 8, 0) = 10");
+        due(y, "paper(4, 0, 1) = 2", "paper(4, 1, 1) = 3", "paper(7, 1, 0) = 4", "paper(2, 0, 5) = 5",
+            "hung(0, 5, 5, 1) = 6", "hung(0, 5, 5, 0) = 7", "paper(2, 1, 5) = 8", "hung(0, 5, 8, 1) = 9",
+            "hung(0, 5, 8, 0) = 10");
         pass(y, 5);
         pass(y, 8);
         pass(y, 1);
         due(y, "hung(0, 5, 8, 0) = 11", "rule(4) = 3");
-        states(y, "behind rule(4)", 0, OPEN, VOID, OPEN, VOID, PASSED, PASSED, OPEN, FALLEN, VOID, FALLEN, FALLEN, OPEN);
+        states(y, "behind rule(4)", 0, OPEN, VOID, OPEN, VOID, PASSED, PASSED, OPEN, FALLEN, VOID, FALLEN, FALLEN,
+            OPEN);
     }
 
     private static void mended() {
@@ -368,17 +386,34 @@ public final class VotesBoundsTest {
         due(x, "paper(2, 0, 5) = 2", "paper(7, 0, 0) = 3", "paper(4, 0, 5) = 4", "mend(0) = NO");
         pass(x, 2);
         pass(x, 0);
-        due(x, "mend(0) = NO", "rule(3) = 3", "put(0) = NO", "mend(0) = 1", "mend(0) = NO", "told(0, 2) = 55", "put(2) = NO",
-            "told(0, 7) = 1", "paper(2, 0, 5) = 5", "never(5) = 0");
+        due(x, "mend(0) = NO", "rule(3) = 3", "put(0) = NO", "mend(0) = 1", "mend(0) = NO", "told(0, 2) = 55",
+            "put(2) = NO", "told(0, 7) = 1", "paper(2, 0, 5) = 5", "never(5) = 0");
         states(x, "behind mend(0)", 0, OPEN, OPEN, VOID, PASSED, VOID, OPEN);
         lose(x, 0);
         states(x, "behind put(0)", 0, LOST, OPEN, VOID, PASSED, VOID, FALLEN);
         due(x, "mend(0) = NO", "told(0, 8) = 1");
+        mendsNothingElse();
+    }
+
+    /** What FALLS and which DEALS are done with is looked at behind PUT and RULING alone. */
+    private static void mendsNothingElse() {
+        BudgetHouse x = house();
+        due(x, "paper(2, 1, 5) = 2", "paper(7, 0, 0) = 3", "paper(1, 0, 5) = 4", "paper(2, 1, 5) = 5");
+        pass(x, 2);
+        lose(x, 5);
+        pass(x, 0);
+        lose(x, 4);
+        due(x, "rule(3) = 1", "hung(1, 1, 2, 0) = 6", "hung(1, 1, 5, 1) = 7", "paper(6, 12, 2) = 8",
+            "paper(6, 12, 4) = 9", "paper(4, 0, 1) = 10", "mend(0) = 1", "run(1) = 1", "keep() = 1", "go(0, 0) = 1");
+        states(x, "behind mend(0)", 6, OPEN, OPEN, OPEN, OPEN, OPEN);
+        due(x, "go(0, 1) = 0");
+        lose(x, 1);
+        states(x, "behind put(1)", 6, FALLEN, FALLEN, PASSED, LOST, OPEN);
     }
 
     private static void neverOfForty() {
-        sentence("NEVER: an OPEN CHANGE whose LINE is not OPEN, or that is of MODE 1 and hangs ON one that is LOST, FALLEN or VOID, "
-            + "or NEVER");
+        sentence("NEVER: an OPEN CHANGE whose LINE is not OPEN, or that is of MODE 1 and hangs ON one that is LOST, "
+            + "FALLEN or VOID, or NEVER");
         BudgetHouse x = house();
         due(x, "paper(2, 0, 1) = 2");
         for (int p = 3; p < 40; p++) {
@@ -394,15 +429,17 @@ public final class VotesBoundsTest {
 
     private static void neverByMode() {
         BudgetHouse x = house();
-        due(x, "paper(2, 0, 1) = 2", "hung(1, 1, 2, 0) = 3", "hung(1, 1, 2, 1) = 4", "hung(1, 1, 4, 0) = 5", "hung(1, 1, 3, 1) = 6",
-            "paper(2, 1, 1) = 7", "hung(0, 1, 7, 1) = 8", "paper(2, 1, 1) = 9", "paper(2, 1, 1) = 10");
+        due(x, "paper(2, 0, 1) = 2", "hung(1, 1, 2, 0) = 3", "hung(1, 1, 2, 1) = 4", "hung(1, 1, 4, 0) = 5",
+            "hung(1, 1, 3, 1) = 6", "paper(2, 1, 1) = 7", "hung(0, 1, 7, 1) = 8", "paper(2, 1, 1) = 9",
+            "paper(2, 1, 1) = 10");
         pass(x, 0);
-        due(x, "never(2) = 1", "never(3) = 0", "never(4) = 1", "never(5) = 0", "never(6) = 0", "never(7) = 0", "never(8) = 1");
+        due(x, "never(2) = 1", "never(3) = 0", "never(4) = 1", "never(5) = 0", "never(6) = 0", "never(7) = 0",
+            "never(8) = 1");
         pass(x, 9);
         lose(x, 10);
         due(x, "hung(1, 1, 9, 1) = 11", "hung(1, 1, 10, 1) = 12", "hung(1, 1, 10, 0) = 13", "hung(1, 1, 12, 1) = 14",
-            "hung(1, 1, 9, 0) = 15", "never(11) = 0", "never(12) = 1", "never(13) = 0", "never(14) = 1", "never(15) = 0",
-            "never(9) = NO", "never(10) = NO");
+            "hung(1, 1, 9, 0) = 15", "never(11) = 0", "never(12) = 1", "never(13) = 0", "never(14) = 1",
+            "never(15) = 0", "never(9) = NO", "never(10) = NO");
         sentence("NEVER: .. whose LINE is not OPEN: LOST, VOID; MENDED, it is OPEN");
         BudgetHouse y = house();
         due(y, "paper(7, 0, 0) = 2", "paper(2, 0, 1) = 3");
@@ -417,8 +454,8 @@ public final class VotesBoundsTest {
         BudgetHouse x = house();
         due(x, "paper(2, 0, 1) = 2", "paper(2, 0, 1) = 3", "paper(6, 1, 2) = 4", "falls(2) = 0", "falls(3) = 0");
         pass(x, 2);
-        due(x, "hung(0, 1, 2, 0) = 5", "hung(0, 1, 5, 1) = 6", "hung(0, 1, 3, 1) = 7", "hung(0, 1, 3, 0) = 8", "falls(3) = 3",
-            "falls(5) = 0", "falls(6) = 1", "falls(7) = 2", "falls(8) = 2", "falls(2) = NO");
+        due(x, "hung(0, 1, 2, 0) = 5", "hung(0, 1, 5, 1) = 6", "hung(0, 1, 3, 1) = 7", "hung(0, 1, 3, 0) = 8",
+            "falls(3) = 3", "falls(5) = 0", "falls(6) = 1", "falls(7) = 2", "falls(8) = 2", "falls(2) = NO");
         states(x, "behind falls()", 2, PASSED, OPEN, PASSED, OPEN, OPEN, OPEN, OPEN);
         due(x, "told(0, 2) = 51", "told(3, 9) = NONE", "is(0, 5) = 1");
         pass(x, 3);
