@@ -289,7 +289,7 @@ public final class BudgetHouse {
         return v >= least && v <= most;
     }
 
-    /** Whether a is 10 times a number below tens, and a number below ones. */
+    /** An office and a land, or two parties, come as one number: 10 times the one, and the other. */
     private static boolean isTwo(int a, int tens, int ones) {
         return a >= 0 && a / 10 < tens && a % 10 < ones;
     }
@@ -477,7 +477,7 @@ public final class BudgetHouse {
             return texts.worthOf(text, papers.kindOf(change), papers.bOf(change), a / 10, a % 10);
         }
 
-        /** Lays the row of changes; answers how many stand in it. */
+        /** Uses one row again and again, so that no call makes one; answers how many stand in it. */
         int layRow() {
             int text = texts.counting(ORDER, hourNow());
             int size = 0;
@@ -604,7 +604,7 @@ public final class BudgetHouse {
             return NONE;
         }
 
-        /** The rows of the night told from here on; answers how many numbers they have. */
+        /** As nobody does anything, no minute needs to go by. Answers how many numbers the rows have. */
         int tellNight(int steps, int[] rows) {
             int size = 0;
             for (int i = 1; i <= steps && size + 1 < rows.length; i++) {
@@ -772,7 +772,7 @@ public final class BudgetHouse {
             }
         }
 
-        /** How many would be in, if nobody did anything but leave by train. */
+        /** From a minute till the same one, nobody leaves: then it tells who is in now. */
         int stillIn(int from, int till) {
             int n = 0;
             for (int m = 0; m < size; m++) {
@@ -919,7 +919,7 @@ public final class BudgetHouse {
             return kindOf(paper) == RIDER && aOf(paper) == line;
         }
 
-        /** Whether a line's sum counts in the balance. */
+        /** A line that is lost or void costs nothing, though its sum stays and may still be told. */
         boolean costs(int paper) {
             return isLine(paper) && within(stateOf(paper), OPEN, PASSED);
         }
@@ -1040,7 +1040,6 @@ public final class BudgetHouse {
             }
         }
 
-        /** Whether an open deal binds a party to vote for a paper. */
         boolean isBound(int party, int paper) {
             for (int p = 0; p < size; p++) {
                 if (kindOf(p) == DEAL && stateOf(p) == OPEN && aOf(p) / 10 == party && bOf(p) == paper) {
@@ -1050,7 +1049,7 @@ public final class BudgetHouse {
             return false;
         }
 
-        /** Whether a paper is open, and for a change, its line is, and what it comes with has passed. */
+        /** The rule of may is asked by the house: papers know no hour. */
         boolean isReady(int paper) {
             if (stateOf(paper) != OPEN) {
                 return false;
@@ -1087,7 +1086,7 @@ public final class BudgetHouse {
             settleDeals();
         }
 
-        /** What goes as the line goes: its riders, and its changes if it is lost. */
+        /** Ahead of the hung ones that fall: some of them hang on a change that falls here. */
         void decideWith(int line, boolean passed) {
             for (int p = 0; p < size && p < PAPERS; p++) {
                 if (isOpenOn(p, RIDER, line)) {
@@ -1143,7 +1142,7 @@ public final class BudgetHouse {
             if (!has(ruling) || !has(line) || states[ruling] != OPEN || states[line] != PASSED) {
                 return NO;
             }
-            int voided = 1 + voidOn(line);
+            int voided = 1 + voidAllOn(line);
             states[line] = VOIDED;
             states[ruling] = PASSED;
             letFall(states);
@@ -1151,8 +1150,8 @@ public final class BudgetHouse {
             return voided;
         }
 
-        /** Voids the changes to a line that passed, and its riders. */
-        int voidOn(int line) {
+        /** The sum of the line stays: what it was ahead of its changes is not known any more. */
+        int voidAllOn(int line) {
             int voided = 0;
             for (int p = 0; p < size && p < PAPERS; p++) {
                 boolean change = isChange(p) && aOf(p) == line && states[p] == PASSED;
@@ -1380,7 +1379,7 @@ public final class BudgetHouse {
             }
         }
 
-        /** The text that counts for a key in an hour: the latest, of several the greatest number. */
+        /** Texts come by their numbers, so of those of like hours the last one stays. */
         int counting(int key, int hour) {
             int best = NONE;
             int latest = -1;
@@ -1731,7 +1730,7 @@ public final class BudgetHouse {
             return true;
         }
 
-        /** A part is whole: the ! right ahead of it are done with. */
+        /** The ! right ahead of a part bind nothing but it: they are open no more as it is whole. */
         void endPart() {
             for (; waitsSize > 0 && lastWaiting() == '!'; waitsSize--) {
                 layDown(SIGN + '!');
@@ -2019,7 +2018,7 @@ public final class BudgetHouse {
             return within(tongue, 0, TONGUES - 1);
         }
 
-        /** The bit of two tongues, the same either way. */
+        /** Who speaks from one to the other speaks back, so both ways have one bit. */
         int bitOf(int one, int other) {
             int high = Math.max(one, other);
             return 1 << high * (high - 1) / 2 + Math.min(one, other);
@@ -2083,7 +2082,7 @@ public final class BudgetHouse {
             }
         }
 
-        /** A place within the row for every hour from 0 to 8 and every choice. */
+        /** There is a place for every hour from 0 to 8 and every choice; the last line keeps to the row. */
         int place(int hour, int last, boolean twice) {
             int at = (hour * CHOICES + last) * 2 + (twice ? 1 : 0);
             return at >= 0 && at < most.length ? at : 0;
@@ -2103,7 +2102,7 @@ public final class BudgetHouse {
             return best;
         }
 
-        /** The least interpreter, nobody behind all, with whom the most is still heard. */
+        /** Nobody comes behind all interpreters, so only if none of them leaves as much to be heard. */
         int firstBest(int hour, int last, boolean twice) {
             for (int chosen = 0; chosen < NOBODY; chosen++) {
                 if (canTake(chosen, last, twice) && heardWith(hour, chosen, last) == mostFrom(hour, last, twice)) {
@@ -2221,7 +2220,7 @@ public final class BudgetHouse {
             return what == 1 ? bestPrice : bestMinutes;
         }
 
-        /** The rows of the night; answers how many numbers they have, or why there are none. */
+        /** By numbers, as prices are told of all up to an offer. Answers how many numbers, or why there are none. */
         int nightRows(int n, int m, int[] rows) {
             int refusal = searchNight(n, m);
             if (refusal != 0) {
