@@ -904,7 +904,7 @@ public final class BudgetHouse {
         }
 
         boolean isChange(int paper) {
-            return within(kindOf(paper), CHANGE, HUNG);
+            return has(paper) && within(kinds[paper], CHANGE, HUNG);
         }
 
         boolean isOpenOn(int paper, int kind, int line) {
